@@ -1,0 +1,65 @@
+import java.nio.charset.StandardCharsets;
+
+/** What the tests share: answers that are due, and texts put on the tape. */
+final class Due {
+    private static int wrong = 0;
+    private static int asked = 0;
+
+    private Due() {
+    }
+
+    static void is(String what, long got, long want) {
+        asked++;
+        if (got != want) {
+            wrong++;
+            System.out.println(what + " answered " + got + ", due is " + want);
+        }
+    }
+
+    static void is(String what, boolean got, boolean want) {
+        is(what, got ? 1 : 0, want ? 1 : 0);
+    }
+
+    static void end() {
+        System.out.println(wrong == 0 ? asked + " answers, all as due" : wrong + " answers are not as due");
+        if (wrong != 0) {
+            System.exit(1);
+        }
+    }
+
+    /** Feeds bytes, with zeros behind them up to a multiple of twenty. */
+    static void feed(VerandaWar war, int... bytes) {
+        for (int from = 0; from < bytes.length; from += 20) {
+            int[] words = new int[5];
+            for (int i = 0; i < 20; i++) {
+                int next = from + i < bytes.length ? bytes[from + i] : 0;
+                words[i / 4] = words[i / 4] << 8 | next & 255;
+            }
+            war.feed(words[0], words[1], words[2], words[3], words[4]);
+        }
+    }
+
+    static void feed(VerandaWar war, String text) {
+        byte[] bytes = text.getBytes(StandardCharsets.ISO_8859_1);
+        int[] numbers = new int[bytes.length];
+        for (int i = 0; i < bytes.length; i++) {
+            numbers[i] = bytes[i] & 255;
+        }
+        feed(war, numbers);
+    }
+
+    static int law(VerandaWar war, String text) {
+        feed(war, text);
+        return war.law(text.length());
+    }
+
+    static int orders(VerandaWar war, String text) {
+        feed(war, text);
+        return war.orders(text.length());
+    }
+
+    static int signals(VerandaWar war, int side, String text) {
+        feed(war, text);
+        return war.signals(side, text.length());
+    }
+}
