@@ -210,6 +210,8 @@ public final class ChairsTest {
         Due.is("34: only two", war.check(1, 2), -1);
         Due.feed(war, 0, 0, 0, 0, 0, 0, 0, 1);
         Due.is("34: chair 7", war.check(0, 8), 7);
+        Due.feed(war, 13, 0, 21);
+        Due.is("34: chair 0", war.check(1, 3), 0);
         Due.is("34: it has not so many", war.check(0, 1), -2);
         Due.is("34: none at all", war.check(0, 0), -1);
         Due.feed(war, 9);

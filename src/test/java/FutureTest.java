@@ -57,6 +57,9 @@ public final class FutureTest {
         Due.is("18: who is in does not go", war.first(9, 1), 6);
         Due.is("18: behind three", war.first(9, 2), 3);
         Due.is("18: nothing is changed", war.count(1), 0);
+        war.chair(0, 0, 0, 3, 0);
+        Due.is("18: chair 0", war.first(9, 1), 0);
+        Due.is("18: behind one", war.first(9, 2), 1);
     }
 
     private static void loses() {
@@ -101,6 +104,12 @@ public final class FutureTest {
         Due.is("20: without any t", war.lasts(0, 1, 60), 0);
         war.watches(1);
         Due.is("20: at dinner", war.lasts(0, 1, 5), -1);
+        Due.law(war, "t32(1=1)");
+        Due.orders(war, "<1O");
+        Due.is("20: 99 more", war.lasts(0, 1, 4), 99);
+        Due.orders(war, "<1I;<1O");
+        war.chair(0, 1, 0, 29, 0);
+        Due.is("20: no hundredth", war.lasts(0, 1, 4), -2);
         VerandaWar dry = new VerandaWar();
         dry.chair(0, 0, 0, 0, 0);
         Due.is("20: above 0, not 0", dry.lasts(0, 0, 1), 1);

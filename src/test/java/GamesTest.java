@@ -112,6 +112,11 @@ public final class GamesTest {
         cards(2, 4, 2, 2, 0, 12, 10, 1, 2, 0, 13, 11, 14);
         // Following suit: player 1 must not ruff with a card of the suit led in hand.
         cards(2, 1, 0, 1, 12, 12, 26, 0, 13, 1, 27, 2, 28);
+        // The second and third card of a trick follow the first one's suit, not each other's.
+        cards(2, 4, 0, 1, 0, 0, 25, 13, 12, 1, 24, 14, 2);
+        cards(2, 4, 3, 1, 26, 0, 12, 14, 1, 13, 11, 26, 3);
+        // The winner leads: player 2 takes the first trick, and his long suit the others.
+        cards(3, 4, 0, 3, 0, 0, 26, 27, 13, 14, 15, 12, 50, 51, 1, 40, 41);
         // The lowest card that does as well.
         cards(3, 4, 0, 3, 10, 10, 11, 12, 0, 1, 2, 3, 4, 5, 6, 7, 8);
         cards(3, 4, 1, 0, 10, 0, 1, 2, 12, 10, 11, 3, 4, 5, 6, 7, 8);
@@ -168,6 +173,8 @@ public final class GamesTest {
         eaten(7, wood, 127, 126, 124, 121, 117, 112, 106, 99, 0);
         eaten(3, wood, 10, 9, 7, 4, 9, 15, 22, 121, 7);
         eaten(4, new int[] {1, 1, 1, 1, 1, 1, 1, 2}, 5, 4, 3, 2, 1, 2, 3, 5, 0);
+        eaten(1, new int[] {1, 50, 1, 1, 1, 1, 1, 1}, 51, 50, 51, 52, 53, 54, 55, 56, 7);
+        eaten(2, new int[] {9, 1, 1, 1, 1, 1, 1, 1}, 11, 2, 1, 2, 3, 4, 5, 6, 0);
         int[] bad = {-2, -2, -2, -2, -2, -2, -2, -2, -2};
         eaten(0, new int[] {1, 1, 1, 1, 1, 1, 1, 0}, bad);
         eaten(0, new int[] {100, 1, 1, 1, 1, 1, 1, 1}, bad);

@@ -75,6 +75,10 @@ public final class LawTest {
         text("b123456(1=1)", -2006);
         text("b1(1=123456)", -2010);
         text("b1(1=1234567", -2010);
+        text("x(1=2|1=123456)", -2013);
+        text("x(1=2&1=123456)", -2013);
+        text("b1*123456(1=1)", -2008);
+        text("b1+123456(1=1)", -2008);
         text("b12345a(1=1)", -1006);
         text("b1(1=1\u0100)".replace('\u0100', '\0'), -1006);
         text("b1(1=1\u00e9)", -1006);
@@ -184,6 +188,9 @@ public final class LawTest {
         holds("1<2", true);
         holds("!1=1", false);
         holds("!!1=1", true);
+        holds("!1<2", false);
+        holds("!2>1", false);
+        holds("!2<1", true);
         holds("!1=2&1=1", true);
         holds("!(1=2&1=1)", true);
         holds("!1=1|1=1", true);
@@ -308,6 +315,13 @@ public final class LawTest {
         Due.is("9: no more", war.watches(120), 0);
         Due.is("9: still watch 3", war.count(1), 3);
         Due.is("9: boredom of who is in", war.chairIs(1, 0, 1), 1);
+        VerandaWar last = new VerandaWar();
+        last.chair(0, 0, 0, 3, 0);
+        Due.law(last, "t2(h=0);b98(1=1)");
+        Due.is("9: lemonade 1, boredom 98", last.watches(1), 0);
+        Due.is("9: lemonade 1 is left", last.chairIs(0, 0, 2), 1);
+        Due.is("9: boredom 99 at most", last.watches(1), 1);
+        Due.is("9: 99", last.chairIs(0, 0, 1), 99);
     }
 
     private static void loses() {

@@ -2,6 +2,8 @@
 public final class SightTest {
     public static void main(String[] args) {
         sees();
+        chairsApart();
+        lowColumns();
         toSee();
         overTrees();
         hidden();
@@ -50,6 +52,61 @@ public final class SightTest {
         Due.is("12: above 0", low.sees(0, 0), 1);
         Due.orders(low, "<0I;>0I");
         Due.is("12: where they are, in", low.sees(0, 0), 1);
+    }
+
+    /** Side 0: chair 0 with no cushion, 3 with eight; side 1: chair 2 with one, 6 with nine; a tree for the high ones. */
+    private static VerandaWar four() {
+        VerandaWar war = new VerandaWar();
+        war.chair(0, 0, 0, 50, 0);
+        war.chair(0, 3, 0, 50, 8);
+        war.chair(1, 2, 0, 50, 1);
+        war.chair(1, 6, 0, 50, 9);
+        war.column(12, 70);
+        return war;
+    }
+
+    private static void chairsApart() {
+        VerandaWar war = four();
+        Due.is("12: low, low", war.sees(0, 2), 0);
+        Due.is("12: low, high", war.sees(0, 6), 1);
+        Due.is("12: high, low", war.sees(3, 2), 1);
+        Due.is("12: high, high", war.sees(3, 6), 1);
+        Due.is("12: nobody in 2 of side 0", war.sees(2, 2), -1);
+        Due.is("12: nobody in 3 of side 1", war.sees(3, 3), -1);
+        Due.is("11: chair 0 sees", war.chairIs(0, 0, 5), 64);
+        Due.is("11: chair 3 sees", war.chairIs(0, 3, 5), 68);
+        Due.is("11: chair 2 across sees", war.chairIs(1, 2, 5), 8);
+        Due.is("11: chair 6 across sees", war.chairIs(1, 6, 5), 9);
+        Due.is("13: 0 to 2", war.toSee(0, 0, 2), 8);
+        Due.is("13: 3 to 2", war.toSee(0, 3, 2), 0);
+        Due.is("13: 2 to 0", war.toSee(1, 2, 0), 7);
+        Due.is("13: 6 to 0", war.toSee(1, 6, 0), 0);
+        Due.is("14: three of four", war.overTrees(0), 3);
+        Due.is("14: the tree", war.overTrees(1), 12);
+        Due.is("14: one more", war.overTrees(2), 1);
+        Due.is("15: two", war.hidden(0), 2);
+        Due.is("15: chair 3 of side 0, or all across", war.hidden(1), 0);
+        war.watches(5);
+        Due.orders(war, ">2I;>6I");
+        Due.is("16: not seen", war.capture(0, 0, 2), false);
+        Due.is("16: seen", war.capture(0, 3, 2), true);
+        Due.is("16: seen, high", war.capture(0, 0, 6), true);
+        war.floor(0, 10);
+        Due.orders(war, ">2O;>6O;<0C8;>2C0");
+        Due.is("14: floors apart", war.overTrees(0), 1 + 1);
+    }
+
+    /** Column 0, a column of 1, and eyes so low that a column of 1 would be in the way. */
+    private static void lowColumns() {
+        VerandaWar war = two();
+        war.column(0, 55);
+        Due.is("14: column 0", war.overTrees(1), 0);
+        war.column(0, 0);
+        war.floor(0, 0);
+        war.floor(1, 1);
+        war.column(9, 1);
+        Due.is("14: a column of 1", war.overTrees(1), 9);
+        Due.is("14: by it", war.overTrees(2), 1);
     }
 
     private static void toSee() {
