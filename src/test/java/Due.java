@@ -1,18 +1,47 @@
 import java.nio.charset.StandardCharsets;
+import java.util.ArrayList;
+import java.util.List;
 
-/** What the tests share: answers that are due, and texts put on the tape. */
+/** What the tests share: answers that are due, the sentence that they are due by, and texts put on the tape. */
 final class Due {
     private static int wrong = 0;
     private static int asked = 0;
+    private static int askedBefore = 0;
+    private static final List<String> SENTENCES = new ArrayList<>();
 
     private Due() {
+    }
+
+    /** From here on answers are due by this sentence of the document; a sentence that none is due by is a mistake. */
+    static void says(String sentence) {
+        endSentence();
+        SENTENCES.add(sentence);
+        askedBefore = asked;
+    }
+
+    /** The sentences that were tested, in their order. */
+    static List<String> sentences() {
+        endSentence();
+        return SENTENCES;
+    }
+
+    private static String sentence() {
+        return SENTENCES.isEmpty() ? "" : SENTENCES.get(SENTENCES.size() - 1);
+    }
+
+    private static void endSentence() {
+        if (!SENTENCES.isEmpty() && asked == askedBefore) {
+            wrong++;
+            System.out.println("\"" + sentence() + "\" has no test");
+        }
     }
 
     static void is(String what, long got, long want) {
         asked++;
         if (got != want) {
             wrong++;
-            System.out.println(what + " answered " + got + ", due is " + want);
+            String by = SENTENCES.isEmpty() ? "" : "\"" + sentence() + "\": ";
+            System.out.println(by + what + " answered " + got + ", due is " + want);
         }
     }
 
