@@ -1,6 +1,7 @@
 import java.nio.charset.StandardCharsets;
 import java.util.ArrayList;
 import java.util.List;
+import java.util.function.IntUnaryOperator;
 
 /** What the tests share: answers that are due, the sentence that they are due by, and texts put on the tape. */
 final class Due {
@@ -47,6 +48,37 @@ final class Due {
 
     static void is(String what, boolean got, boolean want) {
         is(what, got ? 1 : 0, want ? 1 : 0);
+    }
+
+    /** That a call answers NONE for all numbers that are not good, and something else for those that are. */
+    static void noOther(String name, IntUnaryOperator call, int... good) {
+        for (int number = -300; number < 700; number++) {
+            isNone(name, call, number, good);
+        }
+        for (int number : new int[] {Integer.MIN_VALUE, Integer.MIN_VALUE + 1, -65536, 65536, 1 << 30, Integer.MAX_VALUE}) {
+            isNone(name, call, number, good);
+        }
+    }
+
+    private static void isNone(String name, IntUnaryOperator call, int number, int[] good) {
+        boolean isGood = false;
+        for (int one : good) {
+            isGood |= one == number;
+        }
+        is(name + " " + number + " is refused", call.applyAsInt(number) == VerandaWar.NONE, !isGood);
+    }
+
+    static int[] range(int least, int most) {
+        int[] numbers = new int[most - least + 1];
+        for (int i = 0; i < numbers.length; i++) {
+            numbers[i] = least + i;
+        }
+        return numbers;
+    }
+
+    /** NONE for false, as noOther has it. */
+    static int refused(boolean answer) {
+        return answer ? 1 : VerandaWar.NONE;
     }
 
     static void end() {

@@ -33,14 +33,6 @@ final class EdgesOfChairs {
         return war;
     }
 
-    /** One in chair 0 of each side. */
-    private static VerandaWar two() {
-        VerandaWar war = new VerandaWar();
-        war.chair(0, 0, 1, 50, 0);
-        war.chair(1, 0, 2, 60, 0);
-        return war;
-    }
-
     private static void sidesAndChairs() {
         Due.says("TWO SIDES (0, 1) of eight CHAIRS each (0 to 7):");
         VerandaWar war = full();
@@ -108,7 +100,7 @@ final class EdgesOfChairs {
         Due.says("RANK (0 to 9),");
         bounds(war, 0, 9, 0);
         Due.says("BOREDOM (0 to 99; 0 at first),");
-        VerandaWar bored = two();
+        VerandaWar bored = Wars.two();
         Due.is("at first", bored.chairIs(0, 0, 1), 0);
         Due.law(bored, "b98(s=0);b60(s=1)");
         bored.watches(1);
@@ -191,7 +183,7 @@ final class EdgesOfChairs {
 
     private static void eyes() {
         Due.says("SEES: the eye of one is FLOOR and 5 for each of his CUSHIONS high,");
-        VerandaWar war = two();
+        VerandaWar war = Wars.two();
         war.floor(0, 0);
         war.floor(1, 99);
         for (int cushions = 0; cushions < 10; cushions++) {
@@ -201,7 +193,7 @@ final class EdgesOfChairs {
             Due.is("eye of side 1", war.chairIs(1, 0, 6), 144 - 5 * cushions);
         }
         // By the cushion the line is at 5, and with the next one above it.
-        VerandaWar low = two();
+        VerandaWar low = Wars.two();
         low.floor(0, 0);
         low.floor(1, 0);
         Due.orders(low, "<0C1;>0C1");
@@ -214,13 +206,13 @@ final class EdgesOfChairs {
     private static void places() {
         Due.says("side 0 ahead of COLUMN 0 (at place 0), side 1 behind COLUMN 23 (at place 25; COLUMN i stands at place i + 1):");
         for (int i = 0; i < 24; i++) {
-            VerandaWar war = two();
+            VerandaWar war = Wars.two();
             war.floor(0, 0);
             war.column(i, 2 * (i + 1));
             Due.is("rising, on the line, column " + i, war.sees(0, 0), 0);
             war.column(i, 2 * (i + 1) - 1);
             Due.is("rising, below the line, column " + i, war.sees(0, 0), 1);
-            VerandaWar falling = two();
+            VerandaWar falling = Wars.two();
             falling.floor(1, 0);
             falling.column(i, 50 - 2 * (i + 1));
             Due.is("falling, on the line, column " + i, falling.sees(0, 0), 0);
@@ -232,7 +224,7 @@ final class EdgesOfChairs {
     private static void lower() {
         Due.says("one sees one across if each COLUMN is lower than the straight line between both eyes is there.");
         for (int i = 0; i < 24; i++) {
-            VerandaWar war = two();
+            VerandaWar war = Wars.two();
             for (int j = 0; j < 24; j++) {
                 war.column(j, 49);
             }
@@ -246,13 +238,13 @@ final class EdgesOfChairs {
             war.column(i, 49);
             Due.is("part of one above 49", war.sees(0, 0), 1);
         }
-        VerandaWar ground = two();
+        VerandaWar ground = Wars.two();
         ground.floor(0, 0);
         ground.floor(1, 0);
         Due.is("0 is not lower than 0", ground.sees(0, 0), 0);
         ground.floor(0, 1);
         Due.is("0 is lower than part of one", ground.sees(0, 0), 1);
-        VerandaWar high = two();
+        VerandaWar high = Wars.two();
         high.floor(0, 99);
         high.floor(1, 99);
         Due.orders(high, "<0C9;>0C9");

@@ -23,17 +23,6 @@ final class EdgesOfGames {
         constants();
     }
 
-    private static VerandaWar both(String a, String b) {
-        VerandaWar war = new VerandaWar();
-        if (!a.isEmpty()) {
-            Due.signals(war, 0, a);
-        }
-        if (!b.isEmpty()) {
-            Due.signals(war, 1, b);
-        }
-        return war;
-    }
-
     private static void answered() {
         Due.says("ANSWERED: the first place at which the SIGNALS of side 1 are not those of side 0 (the shorter one's end, too).");
         String sixty = "6(9a)6a";
@@ -41,12 +30,12 @@ final class EdgesOfGames {
             {"abc", "abd"}, {"abc", "bbd"}, {sixty, sixty}, {sixty, "6(9a)5a"}, {"6(9a)5ab", sixty}};
         int[] places = {-2, 0, 0, -2, 0, 1, 1, 2, 2, 0, -2, 59, 59};
         for (int i = 0; i < twos.length; i++) {
-            Due.is(twos[i][0] + " and " + twos[i][1], both(twos[i][0], twos[i][1]).answered(), places[i]);
+            Due.is(twos[i][0] + " and " + twos[i][1], Wars.signals(twos[i][0], twos[i][1]).answered(), places[i]);
         }
     }
 
     private static void common(String a, String b, String want) {
-        VerandaWar war = both(a, b);
+        VerandaWar war = Wars.signals(a, b);
         Due.is(a + " and " + b, war.inCommon(100), want.length());
         for (int i = 0; i < 60; i++) {
             int due = i < want.length() ? ".abcde".indexOf(want.charAt(i)) : -4;
@@ -74,6 +63,11 @@ final class EdgesOfGames {
         common("abab", "baba", "aba");
         common("6(9e)6e", "6(9e)6e", "e".repeat(60));
         common("6(9e)6e", "e", "e");
+        common("e", "6(9e)6e", "e");
+        common("ab", "2a2b", "ab");
+        common("2a2b", "ab", "ab");
+        common("ab.", "aab..", "ab.");
+        common("aab..", "ab.", "ab.");
         common("2(a.)6(9b)2c", "2c6(9b)2(.a)", "b".repeat(54));
     }
 
@@ -83,14 +77,14 @@ final class EdgesOfGames {
             "6(9a)5ab", "b6(9a)5a", ".", "..a..", "5(6(ab))", "5(6(ab))".replace("b", "a")};
         int[] beats = {1, 1, 1, 2, 2, 2, 2, 4, 3, 3, 3, 3, 3, 60, 60, 1, 3, 2, 1};
         for (int i = 0; i < texts.length; i++) {
-            Due.is(texts[i], both(texts[i], "").beat(0), beats[i]);
-            Due.is(texts[i] + ", side 1", both("", texts[i]).beat(1), beats[i]);
+            Due.is(texts[i], Wars.signals(texts[i], "").beat(0), beats[i]);
+            Due.is(texts[i] + ", side 1", Wars.signals("", texts[i]).beat(1), beats[i]);
         }
     }
 
     private static void lamps() {
         Due.says("LAMPS of a side: how often a sign is among them.");
-        VerandaWar war = both("6(9e)6e", "2(.ab)3d");
+        VerandaWar war = Wars.signals("6(9e)6e", "2(.ab)3d");
         int[] far = {2, 2, 2, 0, 3, 0};
         for (int sign = 0; sign < 6; sign++) {
             Due.is("side 0, " + sign, war.lamps(0, sign), sign == 5 ? 60 : 0);

@@ -22,16 +22,9 @@ final class EdgesOfLaterPromises {
         countOfSides();
     }
 
-    private static VerandaWar two() {
-        VerandaWar war = new VerandaWar();
-        war.chair(0, 0, 1, 50, 0);
-        war.chair(1, 0, 2, 60, 0);
-        return war;
-    }
-
     private static void first() {
         Due.says("THE FIRST that goes IN in n WATCHES (1 to 120), what 0 the side, 1 the CHAIR, 2 behind how many; -2: nobody;");
-        VerandaWar war = two();
+        VerandaWar war = Wars.two();
         war.chair(1, 7, 0, 60, 0);
         Due.law(war, "x(c=7&d=19&h=5)");
         int[] want = {1, 7, 120};
@@ -48,15 +41,15 @@ final class EdgesOfLaterPromises {
         war.watches(1);
         Due.is("all are in", war.first(120, 0), -2);
         Due.says("NONE: no such ones.");
-        VerandaWar some = two();
-        EdgesOfPromises.noOther("n", n -> some.first(n, 0), EdgesOfPromises.range(1, 120));
-        EdgesOfPromises.noOther("what", what -> some.first(1, what), 0, 1, 2);
+        VerandaWar some = Wars.two();
+        Due.noOther("n", n -> some.first(n, 0), Due.range(1, 120));
+        Due.noOther("what", what -> some.first(1, what), 0, 1, 2);
     }
 
     private static void loses() {
         Due.says("Who LOSES in n WATCHES (1 to 120), what 0 who (bits; 0: none; who has LOST, too), 1 behind how many (0: it is so; -2: "
             + "none);");
-        VerandaWar war = two();
+        VerandaWar war = Wars.two();
         Due.law(war, "x(s=1&d=19&h=5)");
         Due.is("side 1", war.loses(120, 0), 2);
         Due.is("behind 120", war.loses(120, 1), 120);
@@ -72,18 +65,18 @@ final class EdgesOfLaterPromises {
         Due.is("forgotten: now side 0", war.loses(1, 0), 1);
         Due.is("behind one again", war.loses(120, 1), 1);
         Due.says("NONE: no such ones.");
-        VerandaWar some = two();
-        EdgesOfPromises.noOther("n", n -> some.loses(n, 0), EdgesOfPromises.range(1, 120));
-        EdgesOfPromises.noOther("what", what -> some.loses(1, what), 0, 1);
+        VerandaWar some = Wars.two();
+        Due.noOther("n", n -> some.loses(n, 0), Due.range(1, 120));
+        Due.noOther("what", what -> some.loses(1, what), 0, 1);
         Due.law(some, "x(1=1)");
         some.watches(1);
-        EdgesOfPromises.noOther("n, lost", n -> some.loses(n, 1), EdgesOfPromises.range(1, 120));
-        EdgesOfPromises.noOther("what, lost", what -> some.loses(1, what), 0, 1);
+        Due.noOther("n, lost", n -> some.loses(n, 1), Due.range(1, 120));
+        Due.noOther("what, lost", what -> some.loses(1, what), 0, 1);
     }
 
     private static void lasts() {
         Due.says("LEMONADE more for a GENTLEMAN that SITS, n WATCHES (1 to 60); -2: it can't last;");
-        VerandaWar war = two();
+        VerandaWar war = Wars.two();
         Due.law(war, "t1(1=1)");
         Due.is("49", war.lasts(0, 0, 49), 0);
         Due.is("50", war.lasts(0, 0, 50), 1);
@@ -95,10 +88,10 @@ final class EdgesOfLaterPromises {
         Due.is("3", war.lasts(0, 0, 3), -2);
         Due.is("nothing is changed", war.chairIs(0, 0, 2), 50);
         Due.says("NONE: no such ones.");
-        VerandaWar some = two();
-        EdgesOfPromises.noOther("n", n -> some.lasts(0, 0, n), EdgesOfPromises.range(1, 60));
-        EdgesOfPromises.noOther("side", side -> some.lasts(side, 0, 1), 0, 1);
-        EdgesOfPromises.noOther("chair", c -> some.lasts(0, c, 1), 0);
+        VerandaWar some = Wars.two();
+        Due.noOther("n", n -> some.lasts(0, 0, n), Due.range(1, 60));
+        Due.noOther("side", side -> some.lasts(side, 0, 1), 0, 1);
+        Due.noOther("chair", c -> some.lasts(0, c, 1), 0);
         Due.orders(some, "<0I");
         Due.is("in", some.lasts(0, 0, 1), -1);
         Due.law(some, "w10(1=1)");
@@ -126,7 +119,7 @@ final class EdgesOfLaterPromises {
         Due.is("nobody apart", empty.glasses(100), 0);
         Due.is("no twos", empty.glasses(101), 0);
         Due.says("NONE: no such what.");
-        EdgesOfPromises.noOther("what", what -> war.glasses(what), 0, 1, 2, 3, 4, 5, 6, 7, 100, 101);
+        Due.noOther("what", what -> war.glasses(what), 0, 1, 2, 3, 4, 5, 6, 7, 100, 101);
     }
 
     private static void marchAndRidge() {
@@ -138,7 +131,7 @@ final class EdgesOfLaterPromises {
         war.chair(1, 7, 9, 9, 0);
         Due.is("side 0", war.march(0), 1);
         Due.is("side 1", war.march(1), 0);
-        EdgesOfPromises.noOther("side", side -> war.march(side), 0, 1);
+        Due.noOther("side", side -> war.march(side), 0, 1);
         Due.says("A RIDGE, what 0 COLUMNS higher than all ahead (the first one, too), 1 the longest row that rises;");
         Due.is("the first one, of 0", war.ridge(0), 1);
         Due.is("any one", war.ridge(1), 1);
@@ -149,7 +142,7 @@ final class EdgesOfLaterPromises {
         Due.is("as high is not higher", war.ridge(0), 1);
         Due.is("still two", war.ridge(1), 2);
         Due.says("NONE: no such what.");
-        EdgesOfPromises.noOther("what", what -> war.ridge(what), 0, 1);
+        Due.noOther("what", what -> war.ridge(what), 0, 1);
     }
 
     private static void answered() {
@@ -185,10 +178,10 @@ final class EdgesOfLaterPromises {
         Due.is("at 54", war.inCommon(54), 0);
         Due.is("at 59", war.inCommon(59), 0);
         Due.says("NONE: no such what (places 0 to 59).");
-        int[] good = EdgesOfPromises.range(0, 60);
+        int[] good = Due.range(0, 60);
         good[60] = 100;
-        EdgesOfPromises.noOther("what", what -> war.inCommon(what), good);
-        EdgesOfPromises.noOther("what, no signals", what -> new VerandaWar().inCommon(what), good);
+        Due.noOther("what", what -> war.inCommon(what), good);
+        Due.noOther("what, no signals", what -> new VerandaWar().inCommon(what), good);
     }
 
     private static void beatAndLamps() {
@@ -200,7 +193,7 @@ final class EdgesOfLaterPromises {
         Due.is("still none of side 0", war.beat(0), -2);
         Due.is("three", war.beat(1), 3);
         Due.says("NONE: no such side.");
-        EdgesOfPromises.noOther("side", side -> war.beat(side), 0, 1);
+        Due.noOther("side", side -> war.beat(side), 0, 1);
         Due.says("LAMPS of a side: how often a sign (0 dark, 1 to 5) is there;");
         Due.signals(war, 0, ".2a3b4c5d6e");
         for (int sign = 0; sign < 6; sign++) {
@@ -208,8 +201,8 @@ final class EdgesOfLaterPromises {
             Due.is("sign across " + sign, war.lamps(1, sign), sign == 1 ? 2 : sign == 2 || sign == 3 ? 1 : 0);
         }
         Due.says("NONE: no such ones.");
-        EdgesOfPromises.noOther("side", side -> war.lamps(side, 0), 0, 1);
-        EdgesOfPromises.noOther("sign", sign -> war.lamps(0, sign), EdgesOfPromises.range(0, 5));
+        Due.noOther("side", side -> war.lamps(side, 0), 0, 1);
+        Due.noOther("sign", sign -> war.lamps(0, sign), Due.range(0, 5));
     }
 
     private static void bridge() {
@@ -228,6 +221,13 @@ final class EdgesOfLaterPromises {
                 }
                 Due.is("the card is of who leads, " + n + ", " + leads, own, true);
             }
+        }
+        VerandaWar again = new VerandaWar();
+        for (int n : new int[] {3, 1, 2, 1, 3}) {
+            Due.feed(again, cards);
+            Due.is("another game of " + n, again.bridge(n, 4, 0, 1), play(cards, n, 4, 0, 1));
+            Due.feed(again, cards);
+            Due.is("its tricks", again.bridge(n, 4, 3, 0), play(cards, n, 4, 3, 0));
         }
         int[] tricks = {1, 0, 1, 0};
         for (int trumps = 0; trumps < 5; trumps++) {
@@ -259,10 +259,10 @@ final class EdgesOfLaterPromises {
         }
         Due.says("NONE: no such ones, it has not so many (the tape stays).");
         VerandaWar war = new VerandaWar();
-        EdgesOfPromises.noOther("n", n -> play(cards, n, 0, 0, 0), 1, 2, 3);
-        EdgesOfPromises.noOther("trumps", trumps -> play(cards, 1, trumps, 0, 0), EdgesOfPromises.range(0, 4));
-        EdgesOfPromises.noOther("leads", leads -> play(cards, 1, 0, leads, 0), EdgesOfPromises.range(0, 3));
-        EdgesOfPromises.noOther("what", what -> play(cards, 1, 0, 0, what), 0, 1);
+        Due.noOther("n", n -> play(cards, n, 0, 0, 0), 1, 2, 3);
+        Due.noOther("trumps", trumps -> play(cards, 1, trumps, 0, 0), Due.range(0, 4));
+        Due.noOther("leads", leads -> play(cards, 1, 0, leads, 0), Due.range(0, 3));
+        Due.noOther("what", what -> play(cards, 1, 0, 0, what), 0, 1);
         for (int n = 1; n <= 3; n++) {
             Due.is("it has not so many, " + n, war.bridge(n, 0, 0, 0), -1);
         }
@@ -323,6 +323,15 @@ final class EdgesOfLaterPromises {
                 Due.is("exactly eight of " + n + ", below", birds(halves, n, 8, 3), 1);
             }
         }
+        VerandaWar again = new VerandaWar();
+        for (int n : new int[] {8, 1, 4, 2, 8}) {
+            Due.feed(again, 7, 7, 7, 7, 7, 7, 7, 7);
+            again.ants(3, 0);
+            Due.feed(again, halves);
+            Due.is("behind white ants, " + n, again.parrots(n, 1, 2), birds(halves, n, 1, 2));
+            Due.feed(again, halves);
+            Due.is("once more, " + n, again.parrots(n, n, 0), 1);
+        }
         int[] tenths = {0, 1, 2, 3, 4, 5, 6, 7, 8, 9, 10};
         int[] above = {0, 1, 1, 3, 2, 1, 3, 7, 4, 9, 1};
         int[] below = {1, 10, 5, 10, 5, 2, 5, 10, 5, 10, 1};
@@ -341,9 +350,9 @@ final class EdgesOfLaterPromises {
             }
         }
         Due.says("NONE: no such ones, it has not so many (the tape stays).");
-        EdgesOfPromises.noOther("n", n -> birds(halves, n, 0, 0), EdgesOfPromises.range(1, 8));
-        EdgesOfPromises.noOther("many", many -> birds(halves, 1, many, 1), EdgesOfPromises.range(0, 8));
-        EdgesOfPromises.noOther("what", what -> birds(halves, 1, 0, what), EdgesOfPromises.range(0, 3));
+        Due.noOther("n", n -> birds(halves, n, 0, 0), Due.range(1, 8));
+        Due.noOther("many", many -> birds(halves, 1, many, 1), Due.range(0, 8));
+        Due.noOther("what", what -> birds(halves, 1, 0, what), Due.range(0, 3));
         VerandaWar war = new VerandaWar();
         Due.is("it has not so many", war.parrots(1, 0, 0), -1);
         Due.feed(war, 3);
@@ -384,8 +393,8 @@ final class EdgesOfLaterPromises {
             }
         }
         Due.says("NONE: no such ones, it has not so many (the tape stays).");
-        EdgesOfPromises.noOther("from", from -> eat(wood, from, 0), EdgesOfPromises.range(0, 7));
-        EdgesOfPromises.noOther("what", what -> eat(wood, 0, what), EdgesOfPromises.range(0, 8));
+        Due.noOther("from", from -> eat(wood, from, 0), Due.range(0, 7));
+        Due.noOther("what", what -> eat(wood, 0, what), Due.range(0, 8));
         VerandaWar war = new VerandaWar();
         Due.is("it has not so many", war.ants(0, 0), -1);
         Due.feed(war, wood);
@@ -396,7 +405,7 @@ final class EdgesOfLaterPromises {
 
     private static void seed() {
         Due.says("THE SEED (0 to 65535; X, too): true;");
-        VerandaWar war = two();
+        VerandaWar war = Wars.two();
         for (int x : new int[] {0, 1, 32768, 65534, 65535}) {
             Due.is("seed " + x, war.seed(x), true);
             Due.is("X " + x, war.count(5), x);
@@ -405,7 +414,7 @@ final class EdgesOfLaterPromises {
         war.watches(1);
         Due.is("the draws go on from it", war.count(5), (25173L * 13849 + 13849) % 65536);
         Due.says("false: no such number.");
-        EdgesOfPromises.noOther("seed", x -> EdgesOfPromises.refused(new VerandaWar().seed(x)), EdgesOfPromises.range(0, 699));
+        Due.noOther("seed", x -> Due.refused(new VerandaWar().seed(x)), Due.range(0, 699));
         war.seed(7);
         for (int x : new int[] {-1, 65536, 65537, 131072, Integer.MIN_VALUE, Integer.MAX_VALUE}) {
             Due.is("seed " + x, war.seed(x), false);
@@ -415,7 +424,7 @@ final class EdgesOfLaterPromises {
 
     private static void keepAndUndo() {
         Due.says("KEPT: THE DAY.");
-        VerandaWar war = two();
+        VerandaWar war = Wars.two();
         Due.is("day 0", war.keep(), 0);
         war.watches(5);
         Due.is("day 0 still", war.keep(), 0);
@@ -434,7 +443,7 @@ final class EdgesOfLaterPromises {
         Due.is("once more", war.undo(), true);
         Due.is("day 21 once more", war.count(0), 21);
         Due.says("false: none was KEPT.");
-        VerandaWar other = two();
+        VerandaWar other = Wars.two();
         other.watches(3);
         Due.is("none", other.undo(), false);
         Due.is("nothing is undone", other.count(1), 3);
@@ -472,6 +481,10 @@ final class EdgesOfLaterPromises {
         Due.is("255 is not -1", compare(war, 0, 1, 255), 0);
         Due.orders(war, "<1I");
         Due.is("who is in is as bored", compare(war, 0, 2, 0, 21), -1);
+        Due.law(war, "w10(c=7)");
+        war.watches(1);
+        Due.is("who is at dinner is as bored", compare(war, 0, 8, 0, 21, 0, 0, 0, 0, 0, 27), -1);
+        Due.is("not more", compare(war, 0, 8, 0, 21, 0, 0, 0, 0, 0, 0), 7);
         Due.orders(war, "<7G2");
         Due.is("a chair that was left is empty", compare(war, 0, 8, 0, 21, 27, 0, 0, 0, 0, 0), -1);
         Due.says("-2: no such ones, it has not so many (the tape stays).");
@@ -493,7 +506,7 @@ final class EdgesOfLaterPromises {
 
     private static void count() {
         Due.says("0 the DAY, 1 the WATCH, 2 who LOST (bits), 3 RULES, 4 bytes of the tape, 5 X;");
-        VerandaWar war = two();
+        VerandaWar war = Wars.two();
         Due.law(war, "x(d=2&h=2);b0(1=1)");
         war.watches(120);
         war.feed(0, 0, 0, 0, 0);
@@ -503,7 +516,7 @@ final class EdgesOfLaterPromises {
             Due.is("what " + what, war.count(what), want[what]);
         }
         for (int side = 0; side < 2; side++) {
-            VerandaWar one = two();
+            VerandaWar one = Wars.two();
             Due.law(one, "x(s=" + side + ")");
             one.watches(1);
             Due.is("who lost", one.count(2), 1 << side);
@@ -549,6 +562,6 @@ final class EdgesOfLaterPromises {
         for (int i = 0; i < 24; i++) {
             good[18 + i] = 100 + i;
         }
-        EdgesOfPromises.noOther("what", what -> war.count(what), good);
+        Due.noOther("what", what -> war.count(what), good);
     }
 }

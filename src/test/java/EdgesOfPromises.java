@@ -1,5 +1,3 @@
-import java.util.function.IntUnaryOperator;
-
 /** Promises 1 to 17, sentence by sentence. */
 final class EdgesOfPromises {
     private EdgesOfPromises() {
@@ -25,49 +23,6 @@ final class EdgesOfPromises {
         whenIn();
     }
 
-    /** That a call answers NONE for all numbers that are not good. */
-    static void noOther(String name, IntUnaryOperator call, int... good) {
-        for (int number = -300; number < 700; number++) {
-            none(name, call, number, good);
-        }
-        for (int number : new int[] {Integer.MIN_VALUE, Integer.MIN_VALUE + 1, -65536, 65536, 1 << 30, Integer.MAX_VALUE}) {
-            none(name, call, number, good);
-        }
-    }
-
-    private static void none(String name, IntUnaryOperator call, int number, int[] good) {
-        boolean isGood = false;
-        for (int g : good) {
-            isGood |= g == number;
-        }
-        int answer = call.applyAsInt(number);
-        Due.is(name + " " + number + " is refused", answer == -1, !isGood);
-    }
-
-    static int[] range(int least, int most) {
-        int[] numbers = new int[most - least + 1];
-        for (int i = 0; i < numbers.length; i++) {
-            numbers[i] = least + i;
-        }
-        return numbers;
-    }
-
-    static int bit(boolean answer) {
-        return answer ? 1 : 0;
-    }
-
-    /** NONE for false, as noOther has it. */
-    static int refused(boolean answer) {
-        return answer ? 1 : -1;
-    }
-
-    private static VerandaWar two() {
-        VerandaWar war = new VerandaWar();
-        war.chair(0, 0, 1, 50, 0);
-        war.chair(1, 0, 2, 60, 0);
-        return war;
-    }
-
     private static void aNewObject() {
         Due.says("Empty CHAIRS, no LAW, SIGNALS; THE SEED 1.");
         VerandaWar war = new VerandaWar();
@@ -83,7 +38,7 @@ final class EdgesOfPromises {
 
     private static void chair() {
         Due.says("A GENTLEMAN (in place of the one before: SITS, BOREDOM 0; who LOST is forgotten): true;");
-        VerandaWar war = two();
+        VerandaWar war = Wars.two();
         Due.law(war, "b7(1=1);x(s=0)");
         war.watches(1);
         Due.is("he is in", war.chairIs(0, 0, 4), 2);
@@ -95,7 +50,7 @@ final class EdgesOfPromises {
         }
         Due.is("forgotten", war.count(2), 0);
         Due.is("the other one stays as he is", war.chairIs(1, 0, 1), 7);
-        war = two();
+        war = Wars.two();
         Due.law(war, "x(1=1)");
         war.watches(1);
         Due.is("both have lost", war.count(2), 3);
@@ -108,12 +63,12 @@ final class EdgesOfPromises {
         war.chair(1, 4, 1, 1, 1);
         Due.is("sits", war.chairIs(1, 4, 4), 0);
         Due.says("false: no such ones.");
-        noOther("side", n -> refused(new VerandaWar().chair(n, 0, 0, 0, 0)), 0, 1);
-        noOther("chair", n -> refused(new VerandaWar().chair(1, n, 0, 0, 0)), range(0, 7));
-        noOther("rank", n -> refused(new VerandaWar().chair(1, 0, n, 0, 0)), range(0, 9));
-        noOther("lemonade", n -> refused(new VerandaWar().chair(1, 0, 0, n, 0)), range(0, 99));
-        noOther("cushions", n -> refused(new VerandaWar().chair(1, 0, 0, 0, n)), range(0, 9));
-        war = two();
+        Due.noOther("side", n -> Due.refused(new VerandaWar().chair(n, 0, 0, 0, 0)), 0, 1);
+        Due.noOther("chair", n -> Due.refused(new VerandaWar().chair(1, n, 0, 0, 0)), Due.range(0, 7));
+        Due.noOther("rank", n -> Due.refused(new VerandaWar().chair(1, 0, n, 0, 0)), Due.range(0, 9));
+        Due.noOther("lemonade", n -> Due.refused(new VerandaWar().chair(1, 0, 0, n, 0)), Due.range(0, 99));
+        Due.noOther("cushions", n -> Due.refused(new VerandaWar().chair(1, 0, 0, 0, n)), Due.range(0, 9));
+        war = Wars.two();
         Due.law(war, "x(1=1)");
         war.watches(1);
         war.chair(0, 0, 10, 0, 0);
@@ -123,11 +78,11 @@ final class EdgesOfPromises {
 
     private static void floorAndColumn() {
         Due.says("A FLOOR: true; false: no such ones.");
-        noOther("side", n -> refused(new VerandaWar().floor(n, 5)), 0, 1);
-        noOther("height", n -> refused(new VerandaWar().floor(0, n)), range(0, 99));
+        Due.noOther("side", n -> Due.refused(new VerandaWar().floor(n, 5)), 0, 1);
+        Due.noOther("height", n -> Due.refused(new VerandaWar().floor(0, n)), Due.range(0, 99));
         Due.says("A COLUMN: true; false: no such ones.");
-        noOther("column", n -> refused(new VerandaWar().column(n, 5)), range(0, 23));
-        noOther("height", n -> refused(new VerandaWar().column(0, n)), range(0, 199));
+        Due.noOther("column", n -> Due.refused(new VerandaWar().column(n, 5)), Due.range(0, 23));
+        Due.noOther("height", n -> Due.refused(new VerandaWar().column(0, n)), Due.range(0, 199));
     }
 
     private static void feed() {
@@ -164,7 +119,7 @@ final class EdgesOfPromises {
 
     private static void law() {
         Due.says("THE LAW by the first n bytes of the tape (1 to 240; empty then), in place of the one before: how many RULES;");
-        VerandaWar war = two();
+        VerandaWar war = Wars.two();
         Due.feed(war, "b7(1=1);b8(1=1)");
         war.feed(0, 0, 0, 0, 0);
         Due.is("seven of forty bytes", war.law(7), 1);
@@ -176,6 +131,11 @@ final class EdgesOfPromises {
         Due.is("side 1", war.tried(1, 20), 9);
         Due.feed(war, "?");
         Due.is("one byte", war.law(1), -1000);
+        VerandaWar often = Wars.two();
+        for (int i = 0; i < 60; i++) {
+            Due.is("again and again", Due.law(often, "x(1=2&1=2|1=2&(1=2|2=1));b" + i + "+0*1+0*1(1=1|2=1|2=1)"), 2);
+            Due.is("the newest one", often.tried(1, 10), i);
+        }
         Due.says("a FAULT: -1000 times its number, less its place (the one before stays);");
         String[] texts = {"?", "b", "b123456", "b12345?", "x(((((((", "b1(1=1);b1+?(1=1)"};
         int[] faults = {-1000, -1001, -2006, -1006, -5007, -1011};
@@ -192,13 +152,13 @@ final class EdgesOfPromises {
         Due.is("at the end of 240", Due.law(war, begun.toString()), -1240);
         Due.says("NONE: no such n, it has not so many (the tape stays).");
         Due.feed(war, "b5(1=1)" + " ".repeat(240));
-        noOther("n", n -> {
-            VerandaWar full = two();
+        Due.noOther("n", n -> {
+            VerandaWar full = Wars.two();
             Due.feed(full, "b5(1=1)" + " ".repeat(240));
             int answer = full.law(n);
             Due.is("the tape, n " + n, full.count(4), answer == -1 ? 260 : 0);
             return answer;
-        }, range(1, 240));
+        }, Due.range(1, 240));
         Due.is("refused", war.law(241), -1);
         Due.is("the tape has what it had", war.law(7), 1);
         Due.is("none on an empty tape", war.law(1), -1);
@@ -210,7 +170,7 @@ final class EdgesOfPromises {
 
     private static void orders() {
         Due.says("ORDERS by the first n bytes of the tape (1 to 120; empty then): how many LINES;");
-        VerandaWar war = two();
+        VerandaWar war = Wars.two();
         Due.feed(war, "<0L5;>0L5");
         war.feed(0, 0, 0, 0, 0);
         Due.is("four of forty bytes", war.orders(4), 1);
@@ -226,13 +186,13 @@ final class EdgesOfPromises {
             Due.is(texts[i], Due.orders(war, texts[i]), faults[i]);
             Due.is("nothing else, " + texts[i], Picture.of(war).equals(before), true);
         }
-        noOther("n", n -> {
-            VerandaWar full = two();
+        Due.noOther("n", n -> {
+            VerandaWar full = Wars.two();
             Due.feed(full, "<0L5" + " ".repeat(243));
             int answer = full.orders(n);
             Due.is("the tape, n " + n, full.count(4), answer == -1 ? 260 : 0);
             return answer;
-        }, range(1, 120));
+        }, Due.range(1, 120));
         Due.is("none on an empty tape", war.orders(1), -1);
         Due.feed(war, "<0L5");
         Due.is("21 of twenty", war.orders(21), -1);
@@ -260,14 +220,14 @@ final class EdgesOfPromises {
             Due.is("nothing else, " + texts[i], Picture.of(war).equals(before), true);
         }
         Due.says("NONE: no such ones, it has not so many (the tape stays).");
-        noOther("n", n -> {
+        Due.noOther("n", n -> {
             VerandaWar full = new VerandaWar();
             Due.feed(full, "a" + " ".repeat(246));
             int answer = full.signals(0, n);
             Due.is("the tape, n " + n, full.count(4), answer == -1 ? 260 : 0);
             return answer;
-        }, range(1, 40));
-        noOther("side", n -> {
+        }, Due.range(1, 40));
+        Due.noOther("side", n -> {
             VerandaWar full = new VerandaWar();
             Due.feed(full, "a");
             return full.signals(n, 1);
@@ -281,7 +241,7 @@ final class EdgesOfPromises {
 
     private static void watches() {
         Due.says("WATCHES (1 to 120; as many as can) go by: how many went IN;");
-        VerandaWar war = two();
+        VerandaWar war = Wars.two();
         Due.law(war, "x(h=3&d=1)");
         Due.is("nine", war.watches(9), 0);
         Due.is("day 1", war.count(0), 1);
@@ -289,14 +249,14 @@ final class EdgesOfPromises {
         Due.is("as many as can of 120", war.watches(120), 2);
         Due.is("one could", war.count(1), 4);
         Due.is("none can", war.watches(120), 0);
-        war = two();
+        war = Wars.two();
         Due.is("120", war.watches(120), 0);
         Due.is("twenty days", war.count(0), 20);
         Due.is("and no watch", war.count(1), 0);
         Due.is("one", war.watches(1), 0);
         Due.is("one watch", war.count(1), 1);
         Due.says("NONE: no such n.");
-        noOther("n", n -> two().watches(n), range(1, 120));
+        Due.noOther("n", n -> Wars.two().watches(n), Due.range(1, 120));
         war.watches(121);
         war.watches(0);
         Due.is("none went by", war.count(1), 1);
@@ -305,7 +265,7 @@ final class EdgesOfPromises {
     private static void tried() {
         Due.says("WATCHES (1 to 120; as many as can) that are tried, what 0 how many went IN, 1 calls to DINNER, 2 LEMONADE drunk, 3 who "
             + "LOST then (bits),");
-        VerandaWar war = two();
+        VerandaWar war = Wars.two();
         war.chair(0, 3, 0, 20, 0);
         Due.law(war, "t6(1=1);w10(h=1)");
         int[][] want = {{0, 0, 18, 0}, {0, 3, 36, 0}, {0, 3, 54, 0}, {1, 3, 68, 0}, {1, 3, 80, 0}};
@@ -337,7 +297,7 @@ final class EdgesOfPromises {
         Due.is("who is in is no more bored", war.tried(3, 10), 0);
         Due.says("NONE: no such ones.");
         VerandaWar full = war;
-        noOther("n", n -> full.tried(n, 0), range(1, 120));
+        Due.noOther("n", n -> full.tried(n, 0), Due.range(1, 120));
         int[] good = new int[20];
         for (int c = 0; c < 8; c++) {
             good[c] = 10 + c;
@@ -346,9 +306,9 @@ final class EdgesOfPromises {
         for (int what = 0; what < 4; what++) {
             good[16 + what] = what;
         }
-        noOther("what", what -> full.tried(1, what), good);
-        VerandaWar some = two();
-        noOther("what, where most are empty", what -> some.tried(1, what), 0, 1, 2, 3, 10, 20);
+        Due.noOther("what", what -> full.tried(1, what), good);
+        VerandaWar some = Wars.two();
+        Due.noOther("what, where most are empty", what -> some.tried(1, what), 0, 1, 2, 3, 10, 20);
     }
 
     private static void chairIs() {
@@ -386,14 +346,20 @@ final class EdgesOfPromises {
         Due.is("only who sits is seen", war.chairIs(0, 3, 5), 126);
         Due.is("who is in sees", war.chairIs(1, 7, 5), 124);
         Due.is("who is in has an eye", war.chairIs(1, 7, 6), 85);
+        Due.is("who is in sees, side 0", war.chairIs(0, 7, 5), 126);
+        Due.law(war, "w10(c=6)");
+        war.watches(1);
+        Due.is("who is at dinner sees", war.chairIs(0, 6, 5), 62);
+        Due.is("who is at dinner sees, side 1", war.chairIs(1, 6, 5), 60);
+        Due.is("who is at dinner is not seen", war.chairIs(0, 3, 5), 62);
         Due.says("NONE for others, of empty CHAIRS.");
         VerandaWar full = war;
-        noOther("what", what -> full.chairIs(0, 0, what), range(0, 6));
-        noOther("chair", c -> full.chairIs(0, c, 0), range(0, 7));
-        noOther("side", side -> full.chairIs(side, 0, 0), 0, 1);
+        Due.noOther("what", what -> full.chairIs(0, 0, what), Due.range(0, 6));
+        Due.noOther("chair", c -> full.chairIs(0, c, 0), Due.range(0, 7));
+        Due.noOther("side", side -> full.chairIs(side, 0, 0), 0, 1);
         for (int what = 0; what < 7; what++) {
-            Due.is("empty, what " + what, two().chairIs(0, 1, what), -1);
-            Due.is("empty across, what " + what, two().chairIs(1, 7, what), -1);
+            Due.is("empty, what " + what, Wars.two().chairIs(0, 1, what), -1);
+            Due.is("empty across, what " + what, Wars.two().chairIs(1, 7, what), -1);
         }
     }
 
@@ -414,8 +380,8 @@ final class EdgesOfPromises {
         war.watches(1);
         Due.is("at dinner", war.sees(3, 6), 1);
         Due.says("NONE: no such ones.");
-        noOther("chair", c -> war.sees(c, 6), 3, 4);
-        noOther("chair across", e -> war.sees(3, e), 6);
+        Due.noOther("chair", c -> war.sees(c, 6), 3, 4);
+        Due.noOther("chair across", e -> war.sees(3, e), 6);
         Due.is("the other way round", war.sees(6, 3), -1);
     }
 
@@ -438,16 +404,16 @@ final class EdgesOfPromises {
         Due.orders(war, "<3I;>6I");
         Due.is("in", war.toSee(1, 6, 3), 5);
         Due.says("NONE: no such ones.");
-        noOther("side", side -> two().toSee(side, 0, 0), 0, 1);
-        noOther("chair", c -> war.toSee(0, c, 6), 3);
-        noOther("chair across", e -> war.toSee(0, 3, e), 6);
-        noOther("chair of side 1", c -> war.toSee(1, c, 3), 6);
-        noOther("chair across side 1", e -> war.toSee(1, 6, e), 3);
+        Due.noOther("side", side -> Wars.two().toSee(side, 0, 0), 0, 1);
+        Due.noOther("chair", c -> war.toSee(0, c, 6), 3);
+        Due.noOther("chair across", e -> war.toSee(0, 3, e), 6);
+        Due.noOther("chair of side 1", c -> war.toSee(1, c, 3), 6);
+        Due.noOther("chair across side 1", e -> war.toSee(1, 6, e), 3);
     }
 
     private static void overTrees() {
         Due.says("OVER THE TREES, what 0 twos, 1 the COLUMN (-2: none by which more would), 2 how many more;");
-        VerandaWar war = two();
+        VerandaWar war = Wars.two();
         int[] free = {1, -2, 0};
         int[] hidden = {0, 23, 1};
         for (int what = 0; what < 3; what++) {
@@ -458,7 +424,7 @@ final class EdgesOfPromises {
             Due.is("hidden, what " + what, war.overTrees(what), hidden[what]);
         }
         Due.says("NONE: no such what.");
-        noOther("what", what -> war.overTrees(what), 0, 1, 2);
+        Due.noOther("what", what -> war.overTrees(what), 0, 1, 2);
     }
 
     private static void hidden() {
@@ -480,7 +446,7 @@ final class EdgesOfPromises {
         }
         Due.is("nobody goes really", war.count(11), 254);
         Due.says("NONE: no such what.");
-        noOther("what", what -> war.hidden(what), 0, 1, 2);
+        Due.noOther("what", what -> war.hidden(what), 0, 1, 2);
     }
 
     /** In the night: chairs 1 and 2 of side 0 sit on 8 and 0 cushions; of side 1 chair 3 is in on 2, chair 4 sits on 2. */
@@ -523,9 +489,9 @@ final class EdgesOfPromises {
 
     private static void capturesRefused() {
         Due.says("false: no such ones, not in that WATCH, none there, he has 9.");
-        noOther("side", side -> refused(night().capture(side, 1, 3)), 0);
-        noOther("chair", c -> refused(night().capture(0, c, 3)), 1, 2);
-        noOther("chair across", e -> refused(night().capture(0, 1, e)), 3);
+        Due.noOther("side", side -> Due.refused(night().capture(side, 1, 3)), 0);
+        Due.noOther("chair", c -> Due.refused(night().capture(0, c, 3)), 1, 2);
+        Due.noOther("chair across", e -> Due.refused(night().capture(0, 1, e)), 3);
         VerandaWar war = night();
         Due.orders(war, "<1I");
         Due.is("by one who is in", war.capture(0, 1, 3), false);
@@ -550,7 +516,7 @@ final class EdgesOfPromises {
 
     private static void whenIn() {
         Due.says("WHEN a GENTLEMAN goes IN, in n WATCHES (1 to 120): behind how many (0: he is IN); -2: not in these;");
-        VerandaWar war = two();
+        VerandaWar war = Wars.two();
         Due.law(war, "x(s=0&d=19&h=5)");
         Due.is("behind 120", war.whenIn(0, 0, 120), 120);
         Due.is("not in 119", war.whenIn(0, 0, 119), -2);
@@ -565,9 +531,9 @@ final class EdgesOfPromises {
         Due.is("side 0 has lost, so that nobody goes any more", war.whenIn(1, 0, 120), -2);
         Due.is("he is in since", war.whenIn(0, 0, 120), 0);
         Due.says("NONE: no such ones.");
-        noOther("side", side -> two().whenIn(side, 0, 1), 0, 1);
-        noOther("chair", c -> two().whenIn(0, c, 1), 0);
-        noOther("n", n -> two().whenIn(0, 0, n), range(1, 120));
-        noOther("n of one who is in", n -> war.whenIn(0, 0, n), range(1, 120));
+        Due.noOther("side", side -> Wars.two().whenIn(side, 0, 1), 0, 1);
+        Due.noOther("chair", c -> Wars.two().whenIn(0, c, 1), 0);
+        Due.noOther("n", n -> Wars.two().whenIn(0, 0, n), Due.range(1, 120));
+        Due.noOther("n of one who is in", n -> war.whenIn(0, 0, n), Due.range(1, 120));
     }
 }

@@ -38,13 +38,6 @@ final class EdgesOfTheLaw {
         return war;
     }
 
-    private static VerandaWar two() {
-        VerandaWar war = new VerandaWar();
-        war.chair(0, 0, 1, 50, 0);
-        war.chair(1, 0, 2, 60, 0);
-        return war;
-    }
-
     /** What a text answers; with a fault the law before stays. */
     private static void text(String text, int want) {
         VerandaWar war = one();
@@ -108,7 +101,7 @@ final class EdgesOfTheLaw {
             text(text.substring(0, i) + " " + text.substring(i), -1000 - i);
         }
         text("b1(1=1)\n", -1007);
-        VerandaWar lawless = two();
+        VerandaWar lawless = Wars.two();
         Due.is("without a law nobody goes in", lawless.watches(120), 0);
         Due.is("nobody is bored", lawless.chairIs(0, 0, 1), 0);
         Due.is("nobody drinks", lawless.chairIs(1, 0, 2), 60);
@@ -522,6 +515,10 @@ final class EdgesOfTheLaw {
         text("b[123456](1=1)", -2007);
         text("x(123456=1)", -2007);
         text("x(1=123456", -2009);
+        text("x(1=2|1=123456)", -2013);
+        text("x(1=2&1=123456)", -2013);
+        text("x(!1=123456)", -2010);
+        text("x((1=123456))", -2010);
         text("b12345(12345=12345)", 1);
         Due.says("4 a 17th RULE, at its letter (if that can stand there);");
         String sixteen = rules(16, "x(1=1)");
@@ -565,6 +562,9 @@ final class EdgesOfTheLaw {
         text("b[[[[[[1]]]]]]+[[[[[[1]]]]]](((((([1]", -5034);
         text("b[[[[[[1]]]]]]((((((1=1))))))", 1);
         text("x((((((1=1))))));x((((((1=1))))))", 1 + 1);
+        text("x(1=2|((((((", -5011);
+        text("x(1=2&((((((", -5011);
+        text("x(1=2|1=1&!!!!!!", -5015);
         // What can't stand there is no seventh one.
         text("x((((((1=1(", -1010);
         text("x((((((1=1!", -1010);
@@ -573,7 +573,7 @@ final class EdgesOfTheLaw {
 
     private static void lostAndDinner() {
         Due.says("A WATCH (while no side has LOST):");
-        VerandaWar war = two();
+        VerandaWar war = Wars.two();
         Due.law(war, "b5(1=1);t1(1=1);x(s=0&h=2)");
         Due.is("one goes in", war.watches(10), 1);
         Due.is("the third was the last", war.count(1), 3);
@@ -588,7 +588,7 @@ final class EdgesOfTheLaw {
         war.watches(1);
         Due.is("now one goes by", war.count(1), 4);
         Due.says("(1) who is at DINNER SITS again.");
-        war = two();
+        war = Wars.two();
         Due.law(war, "w10(h=0);b10*n+o(1=1)");
         war.watches(1);
         Due.is("both are at dinner", war.count(12) + war.count(22), 2);
@@ -596,6 +596,12 @@ final class EdgesOfTheLaw {
         Due.is("both sit", war.count(11) + war.count(21), 2);
         Due.is("he was alone, and one across", war.chairIs(0, 0, 1), 11 + 11);
         Due.is("all sat again before anybody was asked", war.chairIs(1, 0, 1), 10 + 11);
+        war = Wars.two();
+        Due.law(war, "w10(1=1)");
+        war.watches(1);
+        Due.law(war, "b10+v(1=1)");
+        Due.is("and sees and is seen again", war.tried(1, 10), 11);
+        Due.is("and sees and is seen again across", war.tried(1, 20), 11);
     }
 
     private static void turns() {
@@ -633,7 +639,7 @@ final class EdgesOfTheLaw {
 
     private static void boredomAndLemonade() {
         Due.says("BOREDOM is more by b (99 at most), LEMONADE less by t (0 at least; b, t asked ahead);");
-        VerandaWar war = two();
+        VerandaWar war = Wars.two();
         Due.law(war, "b70(1=1);t45(1=1)");
         war.watches(1);
         Due.is("70", war.chairIs(0, 0, 1), 70);
@@ -641,12 +647,12 @@ final class EdgesOfTheLaw {
         war.watches(1);
         Due.is("99, not 140", war.chairIs(0, 0, 1), 99);
         Due.is("0, not -40", war.chairIs(0, 0, 2), 0);
-        war = two();
+        war = Wars.two();
         Due.law(war, "b3(l=50);t4(a=0)");
         war.watches(1);
         Due.is("b was asked ahead of the drink", war.chairIs(0, 0, 1), 3);
         Due.is("t was asked ahead of the boredom", war.chairIs(0, 0, 2), 46);
-        war = two();
+        war = Wars.two();
         Due.law(war, "b3(l<50);t4(a>0)");
         war.watches(1);
         Due.is("b was asked ahead", war.chairIs(0, 0, 1), 0);
@@ -655,11 +661,11 @@ final class EdgesOfTheLaw {
 
     private static void goesIn() {
         Due.says("at BOREDOM 99 or LEMONADE 0, or by x (asked then), he goes IN;");
-        VerandaWar war = two();
+        VerandaWar war = Wars.two();
         Due.law(war, "b98(1=1)");
         Due.is("98 does not do", war.watches(1), 0);
         Due.is("99 does", war.watches(1), 2);
-        war = two();
+        war = Wars.two();
         Due.law(war, "t49(1=1)");
         Due.is("1 is left", war.watches(1), 0);
         Due.law(war, "t1(s=0)");
@@ -670,14 +676,14 @@ final class EdgesOfTheLaw {
         war.chair(0, 1, 0, 1, 0);
         Due.is("0 at first, without a law", war.watches(1), 1);
         Due.is("1 at first", war.chairIs(0, 1, 4), 0);
-        war = two();
+        war = Wars.two();
         Due.law(war, "b3(1=1);t4(1=1);x(a=3&l=46)");
         Due.is("x is asked with boredom and lemonade as they are then", war.watches(1), 1);
         Due.is("who by x", war.count(13), 1);
-        war = two();
+        war = Wars.two();
         Due.law(war, "b3(1=1);t4(1=1);x(a=0|l=50)");
         Due.is("not as they were", war.watches(1), 0);
-        war = two();
+        war = Wars.two();
         Due.law(war, "b99(1=1);w10(1=1)");
         Due.is("he goes in, not to dinner", war.watches(1), 2);
         Due.is("nobody drew", war.count(5), 1);
@@ -695,12 +701,12 @@ final class EdgesOfTheLaw {
                 Due.is("draw " + draw + ", w " + w, war.chairIs(1, 5, 4), draw < w ? 1 : 0);
             }
         }
-        VerandaWar war = two();
+        VerandaWar war = Wars.two();
         Due.law(war, "b3(1=1);t4(1=1);w10(a=3&l=46)");
         war.watches(1);
         Due.is("asked then", war.count(12), 1);
         Due.is("not the other one", war.count(22), 0);
-        war = two();
+        war = Wars.two();
         war.watches(1);
         Due.is("a draw without any w", war.count(5), drawn(2));
     }
@@ -710,18 +716,18 @@ final class EdgesOfTheLaw {
         String[] laws = {"x(s=0)", "x(s=1)", "x(1=1)", "x(1=2)", "x(s=0);w10(1=1)"};
         int[] lost = {1, 2, 3, 0, 1};
         for (int i = 0; i < laws.length; i++) {
-            VerandaWar war = two();
+            VerandaWar war = Wars.two();
             Due.law(war, laws[i]);
             war.watches(1);
             Due.is("by " + laws[i], war.count(2), lost[i]);
             Due.is("one watch by " + laws[i], war.count(1), 1);
         }
-        VerandaWar war = two();
+        VerandaWar war = Wars.two();
         war.chair(0, 5, 0, 50, 0);
         Due.law(war, "x(c=0)");
         war.watches(1);
         Due.is("one is left of side 0", war.count(2), 2);
-        war = two();
+        war = Wars.two();
         Due.orders(war, "<0I");
         war.watches(3);
         Due.is("all were in when it began", war.count(2), 0);
@@ -734,7 +740,7 @@ final class EdgesOfTheLaw {
         war.chair(1, 7, 0, 0, 0);
         war.watches(1);
         Due.is("side 0 is empty", war.count(2), 2);
-        war = two();
+        war = Wars.two();
         Due.law(war, "w10(h=0);x(s=0&h=1)");
         war.watches(1);
         Due.is("all at dinner, nobody has lost", war.count(2), 0);
@@ -744,7 +750,7 @@ final class EdgesOfTheLaw {
 
     private static void clock() {
         Due.says("The WATCH is one more (behind 5: 0, the DAY one more; 9999 at most: then none goes by).");
-        VerandaWar war = two();
+        VerandaWar war = Wars.two();
         for (int i = 1; i < 14; i++) {
             war.watches(1);
             Due.is("watch", war.count(1), i % 6);
@@ -753,7 +759,7 @@ final class EdgesOfTheLaw {
         war.watches(120);
         Due.is("120 on, the watch", war.count(1), 1);
         Due.is("120 on, the day", war.count(0), 22);
-        lastDay(two());
+        lastDay(Wars.two());
     }
 
     /** 512 calls at most: later ones may answer anything. */

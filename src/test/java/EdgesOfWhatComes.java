@@ -16,30 +16,13 @@ final class EdgesOfWhatComes {
         ridge();
     }
 
-    private static VerandaWar two() {
-        VerandaWar war = new VerandaWar();
-        war.chair(0, 0, 1, 50, 0);
-        war.chair(1, 0, 2, 60, 0);
-        return war;
-    }
-
-    /** Side 0: chairs 1 and 6; side 1: chair 2; each drinks 5 a watch: chair 6 and chair 2 across go in behind two. */
-    private static VerandaWar three() {
-        VerandaWar war = new VerandaWar();
-        war.chair(0, 1, 0, 30, 0);
-        war.chair(0, 6, 0, 10, 0);
-        war.chair(1, 2, 0, 10, 0);
-        Due.law(war, "t5(1=1)");
-        return war;
-    }
-
     private static void tried() {
         Due.says("TRIED are n WATCHES by the DRAWS that will come (nothing is changed).");
-        VerandaWar war = three();
+        VerandaWar war = Wars.three();
         war.chair(1, 7, 0, 99, 0);
         Due.law(war, "b3+s(1=1);t2+c%2(1=1);w4(1=1)");
         for (int n : new int[] {1, 2, 5, 119, 120}) {
-            VerandaWar twin = three();
+            VerandaWar twin = Wars.three();
             twin.chair(1, 7, 0, 99, 0);
             Due.law(twin, "b3+s(1=1);t2+c%2(1=1);w4(1=1)");
             int[] answers = new int[4];
@@ -71,7 +54,7 @@ final class EdgesOfWhatComes {
 
     private static void when() {
         Due.says("WHEN one goes IN: behind how many of n;");
-        VerandaWar war = three();
+        VerandaWar war = Wars.three();
         Due.is("behind two", war.whenIn(0, 6, 120), 2);
         Due.is("behind two of two", war.whenIn(0, 6, 2), 2);
         Due.is("not in one", war.whenIn(0, 6, 1), -2);
@@ -80,7 +63,7 @@ final class EdgesOfWhatComes {
         war.watches(1);
         Due.is("behind none", war.whenIn(0, 6, 1), 0);
         Due.says("who is the first of all (side 0 ahead, by CHAIRS), when;");
-        war = three();
+        war = Wars.three();
         Due.is("side 0 ahead", war.first(120, 0), 0);
         Due.is("its chair", war.first(120, 1), 6);
         Due.is("when", war.first(120, 2), 2);
@@ -96,7 +79,7 @@ final class EdgesOfWhatComes {
         String[] laws = {"x(s=0&h=3)", "x(s=1&h=3)", "x(h=3)", "x(1=2)"};
         int[] who = {1, 2, 3, 0};
         for (int i = 0; i < laws.length; i++) {
-            VerandaWar sides = two();
+            VerandaWar sides = Wars.two();
             Due.law(sides, laws[i]);
             Due.is("who by " + laws[i], sides.loses(4, 0), who[i]);
             Due.is("when by " + laws[i], sides.loses(4, 1), who[i] == 0 ? -2 : 4);
@@ -109,7 +92,7 @@ final class EdgesOfWhatComes {
         // Side 1 is at 0; seen from column 0 (24 of 25 parts of side 0's eye) so many cushions more are needed.
         for (int has = 0; has < 10; has++) {
             for (int needs = has; needs < 11; needs++) {
-                VerandaWar war = two();
+                VerandaWar war = Wars.two();
                 war.floor(0, 0);
                 war.floor(1, 0);
                 Due.orders(war, "<0C" + has);
@@ -120,7 +103,7 @@ final class EdgesOfWhatComes {
                 Due.is("has " + has + ", needs " + least, war.toSee(0, 0, 0), want);
             }
         }
-        VerandaWar war = two();
+        VerandaWar war = Wars.two();
         war.column(23, 72);
         Due.is("from side 1", war.toSee(1, 0, 0), 5);
         Due.is("from side 0", war.toSee(0, 0, 0), -2);
@@ -151,8 +134,22 @@ final class EdgesOfWhatComes {
         Due.law(war, "w10(c=6)");
         war.watches(1);
         Due.is("not those at dinner", war.overTrees(0), 30 + 2);
+        // Eyes at 99 and at 0: the line comes down from 95.04 to 3.96.
+        war = Wars.two();
+        war.floor(0, 99);
+        war.floor(1, 0);
+        war.column(0, 95);
+        Due.is("from a high floor", war.overTrees(0), 1);
+        war.column(23, 4);
+        Due.is("to a low one", war.overTrees(0), 0);
+        war.floor(0, 0);
+        war.floor(1, 99);
+        Due.is("from a low one", war.overTrees(0), 0);
+        war.column(0, 3);
+        war.column(23, 95);
+        Due.is("to a high one", war.overTrees(0), 1);
         Due.says("the COLUMN by cutting which to 0 most twos more would (of like ones the lowest), how many more.");
-        war = two();
+        war = Wars.two();
         Due.is("none", war.overTrees(1), -2);
         Due.is("none more", war.overTrees(2), 0);
         war.column(9, 50);
@@ -179,6 +176,13 @@ final class EdgesOfWhatComes {
         Due.is("most by column 23", war.overTrees(1), 23);
         Due.is("two more by that", war.overTrees(2), 2);
         Due.is("nothing is cut", war.count(123), 60);
+        // A column of 1 is cut to 0 and not less.
+        VerandaWar low = Wars.two();
+        low.floor(0, 0);
+        low.floor(1, 1);
+        low.column(9, 1);
+        Due.is("a column of 1", low.overTrees(1), 9);
+        Due.is("one more by cutting it", low.overTrees(2), 1);
         // Cut to 0, not away: eyes at 0 see nobody over it.
         war.floor(0, 0);
         war.floor(1, 0);
@@ -241,7 +245,7 @@ final class EdgesOfWhatComes {
 
     private static void lemonade() {
         Due.says("LEMONADE for n WATCHES (1 to 60): how much more a GENTLEMAN that SITS needs so that it would last");
-        VerandaWar war = three();
+        VerandaWar war = Wars.three();
         Due.is("n 0", war.lasts(0, 6, 0), -1);
         Due.is("n 61", war.lasts(0, 6, 61), -1);
         Due.is("n 1", war.lasts(0, 6, 1), 0);
@@ -260,7 +264,7 @@ final class EdgesOfWhatComes {
     private static void lemonadeByState() {
         Due.says("(LEMONADE stays above 0 behind each; t by his state as it would be, l as it would be, b too, no x, no DINNER, "
             + "all others as now, WATCHES, DAYS going on):");
-        VerandaWar war = three();
+        VerandaWar war = Wars.three();
         Due.law(war, "t10(h=0)");
         Due.is("0 behind the first is not above 0", war.lasts(0, 6, 1), 1);
         Due.law(war, "t9(h=0)");
@@ -287,8 +291,14 @@ final class EdgesOfWhatComes {
         war.watches(1);
         Due.law(war, "t2*n+o(1=1)");
         Due.is("who is at dinner stays there", war.lasts(0, 6, 4), 3);
+        Due.law(war, "t2+3*v(1=1)");
+        Due.is("whom he sees", war.lasts(0, 6, 4), 11);
+        war.column(11, 50);
+        Due.is("whom he sees now", war.lasts(0, 6, 4), 0);
+        war.column(11, 49);
+        Due.is("and again", war.lasts(0, 6, 4), 11);
         Due.says("0 to 99, more: can't.");
-        war = three();
+        war = Wars.three();
         Due.law(war, "t1(1=1)");
         Due.is("0", war.lasts(0, 1, 29), 0);
         Due.is("1", war.lasts(0, 1, 30), 1);
@@ -304,16 +314,7 @@ final class EdgesOfWhatComes {
 
     /** Seats those in chairs by their digits, and tells what is due of their glasses. */
     private static void row(String here, String across, int twos, int apart, int... whom) {
-        VerandaWar war = new VerandaWar();
-        for (int c = 0; c < 8; c++) {
-            if (here.indexOf('0' + c) >= 0) {
-                war.chair(0, c, 0, 9, 0);
-            }
-            if (across.indexOf('0' + c) >= 0) {
-                war.chair(1, c, 0, 9, 0);
-            }
-        }
-        rowOf(war, here + " to " + across + ", ", twos, apart, whom);
+        rowOf(Wars.seats(here, across), here + " to " + across + ", ", twos, apart, whom);
     }
 
     private static void rowOf(VerandaWar war, String name, int twos, int apart, int... whom) {

@@ -18,8 +18,12 @@ public final class EdgesTest {
         EdgesOfLaterPromises.all();
         List<String> sentences = Due.sentences();
         System.out.println(sentences.size() + " sentences");
-        Path root = Path.of(args.length > 0 ? args[0] : ".");
-        compare(document(Files.readString(root.resolve("../shared/DOC.md"))), sentences);
+        Path path = Path.of(args.length > 0 ? args[0] : ".").resolve("../shared/DOC.md");
+        if (Files.exists(path)) {
+            compare(document(Files.readString(path)), sentences);
+        } else {
+            System.out.println("there is no document to compare them with");
+        }
         Due.end();
     }
 

@@ -9,17 +9,8 @@ public final class FutureTest {
         Due.end();
     }
 
-    private static VerandaWar some() {
-        VerandaWar war = new VerandaWar();
-        war.chair(0, 1, 0, 30, 0);
-        war.chair(0, 6, 0, 10, 0);
-        war.chair(1, 2, 0, 10, 0);
-        Due.law(war, "t5(1=1)");
-        return war;
-    }
-
     private static void whenIn() {
-        VerandaWar war = some();
+        VerandaWar war = Wars.three();
         Due.is("17: two", war.whenIn(1, 2, 120), 2);
         Due.is("17: just two", war.whenIn(1, 2, 2), 2);
         Due.is("17: not in one", war.whenIn(1, 2, 1), -2);
@@ -39,7 +30,7 @@ public final class FutureTest {
     }
 
     private static void first() {
-        VerandaWar war = some();
+        VerandaWar war = Wars.three();
         Due.is("18: side 0 ahead", war.first(9, 0), 0);
         Due.is("18: the chair", war.first(9, 1), 6);
         Due.is("18: behind two", war.first(9, 2), 2);
@@ -63,7 +54,7 @@ public final class FutureTest {
     }
 
     private static void loses() {
-        VerandaWar war = some();
+        VerandaWar war = Wars.three();
         Due.is("19: side 1", war.loses(9, 0), 2);
         Due.is("19: behind two", war.loses(9, 1), 2);
         Due.is("19: none in one", war.loses(1, 0), 0);
@@ -83,7 +74,7 @@ public final class FutureTest {
     }
 
     private static void lasts() {
-        VerandaWar war = some();
+        VerandaWar war = Wars.three();
         Due.is("20: five watches", war.lasts(0, 1, 5), 0);
         Due.is("20: six", war.lasts(0, 1, 6), 1);
         Due.is("20: seven", war.lasts(0, 1, 7), 6);
@@ -116,7 +107,7 @@ public final class FutureTest {
     }
 
     private static void lastsByState() {
-        VerandaWar war = some();
+        VerandaWar war = Wars.three();
         Due.law(war, "t50(l>40);t1(1=1)");
         Due.is("20: more need not last longer", war.lasts(0, 6, 10), 1);
         Due.is("20: 45 in 45 watches can't", war.lasts(0, 6, 45), -2);

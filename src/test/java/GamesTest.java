@@ -11,15 +11,7 @@ public final class GamesTest {
     }
 
     private static void row(String here, String across, int twos, int apart, int... whom) {
-        VerandaWar war = new VerandaWar();
-        for (int c = 0; c < 8; c++) {
-            if (here.indexOf('0' + c) >= 0) {
-                war.chair(0, c, 0, 9, 0);
-            }
-            if (across.indexOf('0' + c) >= 0) {
-                war.chair(1, c, 0, 9, 0);
-            }
-        }
+        VerandaWar war = Wars.seats(here, across);
         String name = "21: " + here + " to " + across + ", ";
         Due.is(name + "apart", war.glasses(100), apart);
         Due.is(name + "twos", war.glasses(101), twos);

@@ -102,31 +102,20 @@ public final class SignalsTest {
         Due.is("8: empty then", war.count(4), 0);
     }
 
-    private static VerandaWar both(String a, String b) {
-        VerandaWar war = new VerandaWar();
-        if (!a.isEmpty()) {
-            Due.signals(war, 0, a);
-        }
-        if (!b.isEmpty()) {
-            Due.signals(war, 1, b);
-        }
-        return war;
-    }
-
     private static void answered() {
-        Due.is("24: none", both("", "").answered(), -2);
-        Due.is("24: only side 0", both("a", "").answered(), 0);
-        Due.is("24: only side 1", both("", "a").answered(), 0);
-        Due.is("24: the same", both("3a.", "aaa.").answered(), -2);
-        Due.is("24: shorter", both("abc", "ab").answered(), 2);
-        Due.is("24: longer", both("ab", "abc").answered(), 2);
-        Due.is("24: dark is a lamp", both("ab", "ab.").answered(), 2);
-        Due.is("24: the first", both("abcde", "abdde").answered(), 2);
-        Due.is("24: at 0", both(".bcde", "abcde").answered(), 0);
+        Due.is("24: none", Wars.signals("", "").answered(), -2);
+        Due.is("24: only side 0", Wars.signals("a", "").answered(), 0);
+        Due.is("24: only side 1", Wars.signals("", "a").answered(), 0);
+        Due.is("24: the same", Wars.signals("3a.", "aaa.").answered(), -2);
+        Due.is("24: shorter", Wars.signals("abc", "ab").answered(), 2);
+        Due.is("24: longer", Wars.signals("ab", "abc").answered(), 2);
+        Due.is("24: dark is a lamp", Wars.signals("ab", "ab.").answered(), 2);
+        Due.is("24: the first", Wars.signals("abcde", "abdde").answered(), 2);
+        Due.is("24: at 0", Wars.signals(".bcde", "abcde").answered(), 0);
     }
 
     private static void common(String a, String b, String want) {
-        VerandaWar war = both(a, b);
+        VerandaWar war = Wars.signals(a, b);
         Due.is("25: length of " + a + " " + b, war.inCommon(100), want.length());
         for (int i = 0; i < 60; i++) {
             int due = i >= want.length() ? -4 : ".abcde".indexOf(want.charAt(i));
@@ -154,17 +143,17 @@ public final class SignalsTest {
         String[] texts = {"a", "3a", "ab", "2(ab)", "2(ab)a", "abca", "abcabcab", "aab", "2(aab)aa", "abac", ".a.a."};
         int[] want = {1, 1, 2, 2, 2, 3, 3, 3, 3, 4, 2};
         for (int i = 0; i < texts.length; i++) {
-            Due.is("26: " + texts[i], both(texts[i], "").beat(0), want[i]);
-            Due.is("26: across " + texts[i], both("", texts[i]).beat(1), want[i]);
+            Due.is("26: " + texts[i], Wars.signals(texts[i], "").beat(0), want[i]);
+            Due.is("26: across " + texts[i], Wars.signals("", texts[i]).beat(1), want[i]);
         }
-        VerandaWar war = both("a", "");
+        VerandaWar war = Wars.signals("a", "");
         Due.is("26: none", war.beat(1), -2);
         Due.is("26: side 2", war.beat(2), -1);
         Due.is("26: side -1", war.beat(-1), -1);
     }
 
     private static void lamps() {
-        VerandaWar war = both("2(a.b)c9e", "dd");
+        VerandaWar war = Wars.signals("2(a.b)c9e", "dd");
         int[] near = {2, 2, 2, 1, 0, 9};
         int[] far = {0, 0, 0, 0, 2, 0};
         for (int sign = 0; sign < 6; sign++) {
@@ -175,6 +164,6 @@ public final class SignalsTest {
         Due.is("27: sign -1", war.lamps(0, -1), -1);
         Due.is("27: side 2", war.lamps(2, 0), -1);
         Due.is("27: side -1", war.lamps(-1, 0), -1);
-        Due.is("27: no signals", both("", "").lamps(0, 0), 0);
+        Due.is("27: no signals", Wars.signals("", "").lamps(0, 0), 0);
     }
 }
