@@ -1,3 +1,5 @@
+import java.util.ArrayList;
+import java.util.List;
 import java.util.function.ToIntFunction;
 
 /** The terms from ANSWERED to CHECK and the words behind them, sentence by sentence. */
@@ -43,6 +45,43 @@ final class EdgesOfGames {
         }
     }
 
+    /** All rows of three signs that are not longer than so many. */
+    private static List<String> rows(int most) {
+        List<String> rows = new ArrayList<>(List.of(".", "a", "b"));
+        for (int i = 0; rows.get(i).length() < most; i++) {
+            rows.add(rows.get(i) + ".");
+            rows.add(rows.get(i) + "a");
+            rows.add(rows.get(i) + "b");
+        }
+        return rows;
+    }
+
+    /** Finds the row in common among all parts of one that are parts of the other. */
+    private static void common(String a, String b) {
+        String best = "";
+        for (int bits = 0; bits < 1 << a.length(); bits++) {
+            StringBuilder part = new StringBuilder();
+            StringBuilder pattern = new StringBuilder(".*");
+            for (int i = 0; i < a.length(); i++) {
+                if ((bits >> i & 1) == 1) {
+                    part.append(a.charAt(i));
+                    pattern.append('[').append(a.charAt(i)).append("].*");
+                }
+            }
+            String found = part.toString();
+            boolean better = found.length() > best.length() || found.length() == best.length() && found.compareTo(best) < 0;
+            if (better && b.matches(pattern.toString())) {
+                best = found;
+            }
+        }
+        VerandaWar war = Wars.signals(a, b);
+        StringBuilder got = new StringBuilder();
+        for (int i = 0; i < war.inCommon(100); i++) {
+            got.append(".abcde".charAt(Math.max(0, war.inCommon(i))));
+        }
+        Due.is(a + " and " + b + " have " + best + ", not " + got, got.toString().equals(best), true);
+    }
+
     private static void inCommon() {
         Due.says("IN COMMON: the longest row of LAMPS that both have in this order (not side by side perhaps); of like ones the least "
             + "(a dot ahead of a).");
@@ -69,6 +108,16 @@ final class EdgesOfGames {
         common("ab.", "aab..", "ab.");
         common("aab..", "ab.", "ab.");
         common("2(a.)6(9b)2c", "2c6(9b)2(.a)", "b".repeat(54));
+        common("4caedb", "edab", "edb");
+        common("edab", "4caedb", "edb");
+        common("ab", "2cab", "ab");
+        common("2cab", "ab", "ab");
+        List<String> rows = rows(4);
+        for (String a : rows) {
+            for (String b : rows) {
+                common(a, b);
+            }
+        }
     }
 
     private static void beat() {
@@ -144,6 +193,10 @@ final class EdgesOfGames {
         // Behind 3 comes 0, who lays last and would take what is led of suit 0.
         cards(4, 1, 1, 39, 10, 26, 9, 39, 0, 40, 1, 41);
         cards(4, 0, 1, 0, 0, 25, 13, 12, 1, 24, 14, 2);
+        // What is led is followed, not what was laid upon it: player 1 trumps (26 to 38) suit 0, but 2 and 3 have it still.
+        cards(2, 0, 0, 12, 13, 12, 27, 14, 2, 26, 1, 28);
+        // Player 0 trumps (0 to 12) suit 1, but 1 and 2 have it still.
+        cards(0, 3, 2, 25, 0, 28, 15, 14, 13, 2, 30, 25);
     }
 
     private static void taking() {
@@ -183,7 +236,10 @@ final class EdgesOfGames {
         // Of three that take all, the lowest.
         cards(4, 0, 3, 10, 10, 11, 12, 0, 1, 2, 3, 4, 5, 6, 7, 8);
         cards(4, 0, 3, 10, 12, 11, 10, 0, 1, 2, 3, 4, 5, 6, 7, 8);
+        cards(4, 0, 3, 10, 12, 10, 11, 0, 1, 2, 3, 4, 5, 6, 7, 8);
         cards(4, 1, 0, 10, 0, 1, 2, 12, 11, 10, 3, 4, 5, 6, 7, 8);
+        cards(4, 1, 0, 10, 0, 1, 2, 10, 11, 12, 3, 4, 5, 6, 7, 8);
+        cards(4, 1, 0, 10, 0, 1, 2, 11, 10, 12, 3, 4, 5, 6, 7, 8);
         // Of those that take none, the lowest.
         cards(4, 0, 0, 1, 2, 1, 12, 11, 3, 13, 4, 14);
         // Only the higher one does: the lower one gives the trick away.

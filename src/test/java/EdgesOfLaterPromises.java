@@ -61,9 +61,15 @@ final class EdgesOfLaterPromises {
         war.watches(1);
         Due.is("both have lost", war.loses(1, 0), 3);
         Due.is("it is so", war.loses(120, 1), 0);
+        war.keep();
         war.chair(0, 0, 1, 50, 0);
         Due.is("forgotten: now side 0", war.loses(1, 0), 1);
         Due.is("behind one again", war.loses(120, 1), 1);
+        VerandaWar untried = Wars.two();
+        Due.law(untried, "x(s=1)");
+        untried.watches(1);
+        Due.is("who has lost", untried.loses(1, 0), 2);
+        Due.is("it is so, too", untried.loses(1, 1), 0);
         Due.says("NONE: no such ones.");
         VerandaWar some = Wars.two();
         Due.noOther("n", n -> some.loses(n, 0), Due.range(1, 120));
@@ -381,6 +387,13 @@ final class EdgesOfLaterPromises {
                 Due.is("from " + from + ", chair " + c, eat(wood, from, c), sum);
             }
             Due.is("from " + from + ", the last", eat(wood, from, 8), from == 7 ? 0 : 7);
+        }
+        VerandaWar again = new VerandaWar();
+        for (int from = 0; from < 8; from++) {
+            Due.feed(again, 9, 9, 9, 9, 9, 9, 9, 9);
+            again.parrots(8, 8, 0);
+            Due.feed(again, wood);
+            Due.is("behind parrots, from " + from, again.ants(from, 8), from == 7 ? 0 : 7);
         }
         Due.says("-2: wood 0, above 99;");
         for (int i = 0; i < 8; i++) {

@@ -342,7 +342,14 @@ final class EdgesOfPromises {
             Due.is("side 1, " + c, war.chairIs(1, c, 5), c < 3 ? 248 : 252);
             Due.is("eye of " + c, war.chairIs(0, c, 6), 50 + 5 * c);
         }
-        Due.orders(war, "<7I;>0I;>7I");
+        // Cushions count for much at the near end, for little at the far one.
+        Due.orders(war, ">0C9");
+        Due.is("high in chair 0 of side 1", war.chairIs(1, 0, 5), 252);
+        Due.is("low ones are not seen by him", war.chairIs(0, 1, 5), 0);
+        Due.orders(war, ">0C0;<0C9");
+        Due.is("high in chair 0 of side 0", war.chairIs(0, 0, 5), 255);
+        Due.is("he is seen by all", war.chairIs(1, 2, 5), 249);
+        Due.orders(war, "<0C0;<7I;>0I;>7I");
         Due.is("only who sits is seen", war.chairIs(0, 3, 5), 126);
         Due.is("who is in sees", war.chairIs(1, 7, 5), 124);
         Due.is("who is in has an eye", war.chairIs(1, 7, 6), 85);
@@ -379,6 +386,16 @@ final class EdgesOfPromises {
         Due.law(war, "w10(1=1)");
         war.watches(1);
         Due.is("at dinner", war.sees(3, 6), 1);
+        VerandaWar four = new VerandaWar();
+        four.chair(0, 2, 0, 50, 0);
+        four.chair(0, 5, 0, 50, 9);
+        four.chair(1, 2, 0, 50, 9);
+        four.chair(1, 5, 0, 50, 0);
+        four.column(11, 60);
+        Due.is("low, high", four.sees(2, 2), 1);
+        Due.is("low, low", four.sees(2, 5), 0);
+        Due.is("high, high", four.sees(5, 2), 1);
+        Due.is("high, low", four.sees(5, 5), 1);
         Due.says("NONE: no such ones.");
         Due.noOther("chair", c -> war.sees(c, 6), 3, 4);
         Due.noOther("chair across", e -> war.sees(3, e), 6);
@@ -403,6 +420,19 @@ final class EdgesOfPromises {
         Due.is("five more from afar", war.toSee(1, 6, 3), 5);
         Due.orders(war, "<3I;>6I");
         Due.is("in", war.toSee(1, 6, 3), 5);
+        VerandaWar floors = new VerandaWar();
+        floors.chair(0, 3, 0, 50, 0);
+        floors.chair(1, 6, 0, 50, 0);
+        floors.floor(0, 20);
+        floors.floor(1, 80);
+        floors.column(12, 60);
+        Due.is("from the low floor", floors.toSee(0, 3, 6), 4);
+        Due.is("from the high floor", floors.toSee(1, 6, 3), 4);
+        floors.column(0, 30);
+        Due.is("a column near the low one", floors.toSee(1, 6, 3), -2);
+        Due.is("he sees over it", floors.toSee(0, 3, 6), 4);
+        floors.chair(1, 6, 0, 50, 9);
+        Due.is("to one who is higher now", floors.toSee(0, 3, 6), 2);
         Due.says("NONE: no such ones.");
         Due.noOther("side", side -> Wars.two().toSee(side, 0, 0), 0, 1);
         Due.noOther("chair", c -> war.toSee(0, c, 6), 3);
@@ -485,6 +515,32 @@ final class EdgesOfPromises {
         war.column(0, 56);
         Due.is("who sees him", war.capture(0, 1, 3), true);
         Due.is("who does not", war.capture(0, 2, 3), false);
+        for (int side = 0; side < 2; side++) {
+            int high = side == 0 ? 5 : 2;
+            int low = 7 - high;
+            Due.is("low from low, side " + side, highAndLow(side).capture(side, low, high), false);
+            Due.is("low from high, side " + side, highAndLow(side).capture(side, low, low), true);
+            Due.is("high from low, side " + side, highAndLow(side).capture(side, high, high), true);
+            Due.is("high from high, side " + side, highAndLow(side).capture(side, high, low), true);
+            VerandaWar raised = highAndLow(side);
+            raised.chair(side, low, 0, 50, 8);
+            Due.is("another one who is high, side " + side, raised.capture(side, low, high), true);
+        }
+    }
+
+    /** In the night: on each side chair 2 and chair 5, a low and a high one; those of one side are in. */
+    private static VerandaWar highAndLow(int taking) {
+        VerandaWar war = new VerandaWar();
+        int high = taking == 0 ? 5 : 2;
+        int highIn = 7 - high;
+        war.chair(taking, 7 - high, 0, 50, 1);
+        war.chair(taking, high, 0, 50, 8);
+        war.chair(1 - taking, highIn, 0, 50, 9);
+        war.chair(1 - taking, 7 - highIn, 0, 50, 1);
+        war.column(11, 65);
+        war.watches(5);
+        Due.orders(war, taking == 0 ? ">2I;>5I" : "<2I;<5I");
+        return war;
     }
 
     private static void capturesRefused() {

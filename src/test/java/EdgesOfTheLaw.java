@@ -265,6 +265,9 @@ final class EdgesOfTheLaw {
             holds(two[0] + "<" + two[1], two[0] < two[1]);
             holds(two[0] + ">" + two[1], two[0] > two[1]);
             holds(two[0] + "=" + two[1], two[0] == two[1]);
+            holds("!" + two[0] + "<" + two[1], two[0] >= two[1]);
+            holds("!" + two[0] + ">" + two[1], two[0] <= two[1]);
+            holds("!" + two[0] + "=" + two[1], two[0] != two[1]);
         }
         holds("0-1<0", true);
         holds("0-1>0", false);

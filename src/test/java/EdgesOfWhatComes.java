@@ -297,6 +297,10 @@ final class EdgesOfWhatComes {
         Due.is("whom he sees now", war.lasts(0, 6, 4), 0);
         war.column(11, 49);
         Due.is("and again", war.lasts(0, 6, 4), 11);
+        war.column(11, 55);
+        Due.is("nobody", war.lasts(0, 6, 4), 0);
+        war.chair(1, 2, 0, 10, 9);
+        Due.is("somebody higher", war.lasts(0, 6, 4), 11);
         Due.says("0 to 99, more: can't.");
         war = Wars.three();
         Due.law(war, "t1(1=1)");
