@@ -1146,26 +1146,12 @@ public final class VerandaWar {
         }
 
         private boolean readTest(int open) {
-            int sign = tape.here();
-            if (sign != '!' && sign != '(') {
-                return readAmount(open) && readComparison(open);
+            if (tape.here() == '!' || tape.here() == '(') {
+                return readOpened(open);
             }
-            if (open >= MOST_OPEN) {
-                return tape.refuse(FAULT_DEEP);
-            }
-            tape.at++;
-            if (sign == '(') {
-                return readChoice(open + 1) && readClosing(')');
-            }
-            if (!readTest(open + 1)) {
+            if (!readAmount(open)) {
                 return false;
             }
-            into.add(Law.NOT, 0);
-            return true;
-        }
-
-        /** What comes behind the first E of a test. */
-        private boolean readComparison(int open) {
             int sign = tape.here();
             if (sign != '<' && sign != '>' && sign != '=') {
                 return tape.refuse(FAULT_PLACE);
@@ -1175,6 +1161,22 @@ public final class VerandaWar {
                 return false;
             }
             into.add(sign, 0);
+            return true;
+        }
+
+        /** A test that begins with ! or (, with so many open around it. */
+        private boolean readOpened(int open) {
+            if (open >= MOST_OPEN) {
+                return tape.refuse(FAULT_DEEP);
+            }
+            if (tape.takes('(')) {
+                return readChoice(open + 1) && readClosing(')');
+            }
+            tape.at++;
+            if (!readTest(open + 1)) {
+                return false;
+            }
+            into.add(Law.NOT, 0);
             return true;
         }
 

@@ -1,73 +1,184 @@
+import com.sun.source.tree.CompilationUnitTree;
+import com.sun.source.util.JavacTask;
+import com.sun.source.util.Trees;
 import java.io.IOException;
+import java.lang.reflect.Field;
+import java.lang.reflect.Method;
+import java.lang.reflect.Modifier;
 import java.nio.file.Files;
 import java.nio.file.Path;
+import java.util.ArrayList;
+import java.util.Arrays;
+import java.util.IdentityHashMap;
+import java.util.List;
+import java.util.Map;
+import java.util.TreeSet;
 import java.util.regex.Matcher;
 import java.util.regex.Pattern;
+import javax.tools.JavaCompiler;
+import javax.tools.StandardJavaFileManager;
+import javax.tools.ToolProvider;
 
-/** Rules of LANGUAGE.md that can be told from the words of the file, and the public face. */
+/** The public face as the document prints it, and the rules of LANGUAGE.md, as far as the compiler can tell them. */
 public final class LanguageTest {
+    private static final String SOURCE = "src/main/java/VerandaWar.java";
+
     public static void main(String[] args) throws IOException {
         Path root = Path.of(args.length > 0 ? args[0] : ".");
-        String source = Files.readString(root.resolve("src/main/java/VerandaWar.java"));
-        String code = source.replaceAll("(?s)/\\*.*?\\*/", "").replaceAll("//[^\n]*", "");
-        for (String word : new String[] {"throw", "throws", "try", "catch", "finally", "synchronized", "assert",
-            "package", "protected", "System.out", "Random", "Thread", "HashMap", "hashCode", "toString", "var",
-            "Object", "->", "::", "Exact"}) {
-            Due.is("rules: " + word, find(code, word.matches("\\w+") ? "\\b" + word + "\\b" : Pattern.quote(word)), 0);
-        }
-        Due.is("rule 2: classes", find(code, "\\b(class|record|enum|interface) [A-Z]") <= 12, true);
-        Due.is("rule 2: all are static", find(code, "\\bclass [A-Z]"), find(code, "static final class [A-Z]") + 1);
-        Due.is("rule 5: static fields are final", find(code, "\\bstatic (int|long|boolean|char|String)(\\[\\])? \\w+ ?[=;]"), 0);
-        Due.is("room: objects are made for fields alone", find(code, "\\bnew\\b"), find(code, "(?m)^ +(private )?(final )?[\\w\\[\\]]+ \\w+ = new "));
-        methodLengths(code);
-        face();
+        face(root.resolve("../shared/DOC.md"));
+        noOtherMembers();
+        rules(root.resolve(SOURCE));
+        badFilesAreRefused();
+        room();
         Due.end();
     }
 
-    private static int find(String code, String pattern) {
-        Matcher matcher = Pattern.compile(pattern).matcher(code);
-        int many = 0;
+    private static void face(Path document) throws IOException {
+        TreeSet<String> own = new TreeSet<>();
+        for (Method method : VerandaWar.class.getDeclaredMethods()) {
+            if (Modifier.isPublic(method.getModifiers())) {
+                own.add(shape(method.getReturnType().getName(), method.getName(), method.getParameterCount()));
+                boolean ints = Arrays.stream(method.getParameterTypes()).allMatch(type -> type == int.class);
+                Due.is("all that " + method.getName() + " takes is int", ints, true);
+                Due.is(method.getName() + " is no static one", Modifier.isStatic(method.getModifiers()), false);
+            }
+        }
+        Due.is("methods", own.size(), 34);
+        Due.is("constructors", VerandaWar.class.getConstructors().length, 1);
+        Due.is("constructors in all", VerandaWar.class.getDeclaredConstructors().length, 1);
+        Due.is("what the constructor takes", VerandaWar.class.getConstructors()[0].getParameterCount(), 0);
+        Due.is("NONE", VerandaWar.NONE, -1);
+        if (Files.exists(document)) {
+            Due.is("the face is the document's: " + own, own.equals(printed(Files.readString(document))), true);
+        }
+    }
+
+    private static TreeSet<String> printed(String document) {
+        TreeSet<String> printed = new TreeSet<>();
+        Matcher matcher = Pattern.compile("public (int|boolean) (\\w+)\\(([^)]*)\\);").matcher(document);
         while (matcher.find()) {
-            many++;
+            int many = matcher.group(3).isEmpty() ? 0 : matcher.group(3).split(",").length;
+            printed.add(shape(matcher.group(1), matcher.group(2), many));
+        }
+        return printed;
+    }
+
+    private static String shape(String answers, String name, int many) {
+        return answers + " " + name + "/" + many;
+    }
+
+    private static void noOtherMembers() {
+        TreeSet<String> face = new TreeSet<>();
+        TreeSet<String> others = new TreeSet<>();
+        for (Method method : VerandaWar.class.getDeclaredMethods()) {
+            boolean open = Modifier.isPublic(method.getModifiers());
+            (open ? face : others).add(method.getName());
+            Due.is("rule 1: private " + method, open || Modifier.isPrivate(method.getModifiers()), true);
+        }
+        for (Class<?> inside : VerandaWar.class.getDeclaredClasses()) {
+            int modifiers = inside.getModifiers();
+            Due.is("rule 1: " + inside, Modifier.isPublic(modifiers) || Modifier.isProtected(modifiers), false);
+            Due.is("rule 1: static " + inside, Modifier.isStatic(modifiers), true);
+            for (Method method : inside.getDeclaredMethods()) {
+                others.add(method.getName());
+            }
+        }
+        for (String name : face) {
+            Due.is("rule 1: no other method is named " + name, others.contains(name), false);
+        }
+        Due.is("rule 1: final", Modifier.isFinal(VerandaWar.class.getModifiers()), true);
+        for (Field field : VerandaWar.class.getDeclaredFields()) {
+            boolean none = field.getName().equals("NONE");
+            Due.is("rule 1: field " + field, none || Modifier.isPrivate(field.getModifiers()), true);
+        }
+    }
+
+    private static void rules(Path file) throws IOException {
+        Rules rules = look(file);
+        for (String broken : rules.broken()) {
+            Due.is(broken + ", faults", 1, 0);
+        }
+        Due.is("the class was read", rules.methods() > 80, true);
+    }
+
+    private static Rules look(Path file) throws IOException {
+        JavaCompiler compiler = ToolProvider.getSystemJavaCompiler();
+        try (StandardJavaFileManager files = compiler.getStandardFileManager(null, null, null)) {
+            JavacTask task = (JavacTask) compiler.getTask(null, files, null, List.of("-proc:none"), null,
+                files.getJavaFileObjects(file));
+            List<CompilationUnitTree> units = new ArrayList<>();
+            task.parse().forEach(units::add);
+            task.analyze();
+            Rules rules = new Rules(Trees.instance(task), units.get(0));
+            rules.scan(units.get(0), null);
+            rules.judgeCalls();
+            return rules;
+        }
+    }
+
+    /** No call makes an object (rule 12 above), so what a new one is made of is all the room that a run takes. */
+    private static void room() {
+        Map<Object, Boolean> found = new IdentityHashMap<>();
+        List<Object> next = new ArrayList<>(List.of(new VerandaWar()));
+        int elements = 0;
+        while (!next.isEmpty()) {
+            Object one = next.remove(next.size() - 1);
+            if (found.put(one, true) == null) {
+                elements += one instanceof int[] row ? row.length : parts(one, next);
+            }
+        }
+        Due.is("room: " + found.size() + " objects", found.size() > 20 && found.size() < 100, true);
+        Due.is("room: " + elements + " elements", elements > 4000 && elements < 10000, true);
+    }
+
+    private static int parts(Object one, List<Object> next) {
+        int many = 0;
+        for (Field field : one.getClass().getDeclaredFields()) {
+            if (!Modifier.isStatic(field.getModifiers())) {
+                many++;
+                if (!field.getType().isPrimitive()) {
+                    next.add(valueOf(field, one));
+                }
+            }
         }
         return many;
     }
 
-    private static void methodLengths(String code) {
-        Matcher matcher = Pattern.compile("(?ms)^( +)[\\w\\[\\] ]+\\w\\([^)]*\\) \\{\n(.*?)^\\1\\}").matcher(code);
-        int many = 0;
-        while (matcher.find()) {
-            many++;
-            String head = matcher.group().substring(0, matcher.group().indexOf('\n'));
-            Due.is("rule 11: lines of" + head, matcher.group(2).split("\n").length <= 60, true);
+    private static Object valueOf(Field field, Object one) {
+        try {
+            field.setAccessible(true);
+            return field.get(one);
+        } catch (IllegalAccessException closed) {
+            throw new IllegalStateException(closed);
         }
-        Due.is("rule 11: methods found", many > 80, true);
     }
 
-    private static void face() {
-        String want = "answered ants beat bridge capture chair chairIs check column count feed first floor glasses "
-            + "hidden inCommon keep lamps lasts law loses march orders overTrees parrots ridge seed sees signals "
-            + "toSee tried undo watches whenIn";
-        java.util.TreeSet<String> names = new java.util.TreeSet<>();
-        java.util.TreeSet<String> own = new java.util.TreeSet<>();
-        for (java.lang.reflect.Method method : VerandaWar.class.getDeclaredMethods()) {
-            boolean open = java.lang.reflect.Modifier.isPublic(method.getModifiers());
-            (open ? names : own).add(method.getName());
-            Due.is("rule 1: private " + method, open || java.lang.reflect.Modifier.isPrivate(method.getModifiers()), true);
+    /** A rule that no file could break would tell nothing: each is broken here once. */
+    private static void badFilesAreRefused() throws IOException {
+        String[][] bad = {
+            {"2", "Runnable r = () -> { };"}, {"2", "class Inner { }"}, {"2", "void f() { class Local { } }"},
+            {"3", "private Object o = null;"}, {"3", "private int[][][] deep = null;"}, {"3", "private long[][] two; private String[][] no;"},
+            {"4", "private int f(int a) { return Math.addExact(a, 1); }"}, {"4", "private int f(String s) { return s.hashCode(); }"},
+            {"4", "private long f() { return System.nanoTime(); }"}, {"4", "private int f(String s) { return s.indexOf(3); }"},
+            {"5", "private static int many = 0;"}, {"5", "static { }"}, {"5", "private static final int[] ROW = new int[3];"},
+            {"6", "private void f() { throw new RuntimeException(); }"}, {"6", "private void f() { try { f(); } finally { f(); } }"},
+            {"6", "private boolean f(String a, String b) { return a == b; }"}, {"6", "private void f() { assert true; }"},
+            {"8", "int f(int a) { return f(a - 1); }"}, {"8", "private int f() { return g(); } private int g() { return f(); }"},
+            {"9", "private void f() { for (;;) { } }"}, {"9", "private void f() { while (true) { } }"},
+            {"11", "private void f(int a, int b, int c, int d, int e, int g, int h, int i) { }"},
+            {"11", "private void a() { b(); } private void b() { c(); } private void c() { d(); } private void d() { e(); } "
+                + "private void e() { f(); } private void f() { g(); } private void g() { h(); } private void h() { i(); } private void i() { }"},
+            {"11", "private void f() { " + "\n;".repeat(70) + " }"},
+            {"11", "private int a, b, c, d, e, f, g, h, i, j, k, l, m, n, o, p, q, r, s, t, u, v, w;"},
+            {"12", "private void f() { int[] a = new int[3]; }"}};
+        Path folder = Files.createTempDirectory("rules");
+        Path file = folder.resolve("Bad.java");
+        for (String[] one : bad) {
+            Files.writeString(file, "public final class Bad { " + one[1] + " }");
+            boolean told = look(file).broken().stream().anyMatch(broken -> broken.startsWith("rule " + one[0] + ":"));
+            Due.is("rule " + one[0] + " is broken by " + one[1].trim(), told, true);
         }
-        Due.is("rule 1: the face", String.join(" ", names).equals(want), true);
-        for (Class<?> inside : VerandaWar.class.getDeclaredClasses()) {
-            for (java.lang.reflect.Method method : inside.getDeclaredMethods()) {
-                own.add(method.getName());
-            }
-        }
-        for (String name : names) {
-            Due.is("rule 1: no other method is named " + name, own.contains(name), false);
-        }
-        Due.is("rule 1: final", java.lang.reflect.Modifier.isFinal(VerandaWar.class.getModifiers()), true);
-        for (java.lang.reflect.Field field : VerandaWar.class.getDeclaredFields()) {
-            boolean open = field.getName().equals("NONE");
-            Due.is("rule 1: field " + field, open || java.lang.reflect.Modifier.isPrivate(field.getModifiers()), true);
-        }
+        Files.delete(file);
+        Files.delete(folder);
     }
 }

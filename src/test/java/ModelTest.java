@@ -139,13 +139,18 @@ public final class ModelTest {
         for (int i = 0; i < rules; i++) {
             String letter = pick("bbbttwwx");
             String amount = letter.equals("x") ? "" : letter.equals("w") ? pick("0123456789") + some("", "+k%3")
-                : pick("0123456789") + some("", pick("+-*/%") + amount(below(3)));
-            String test = letter.equals("x") && below(4) != 0 ? pick("ac") + ">" + (2 + below(70)) : choice(below(3));
+                : pick("0123456789") + some("", pick("+-*/%") + amount(depth()));
+            String test = letter.equals("x") && below(4) != 0 ? pick("ac") + ">" + (2 + below(70)) : choice(depth());
             String rule = letter + amount + "(" + (rules > 10 ? "k" + pick("<>=") + "5" : test) + ")";
             text.append(i == 0 ? "" : ";").append(rule);
         }
         String whole = text.toString();
         return spoilt(whole.length() > 240 ? whole.substring(0, 240) : whole, "btwxsckalunovhd0123456789+-*/%<>=&|!()[];q ");
+    }
+
+    /** Seldom so deep that it is too much. */
+    private int depth() {
+        return below(6) == 0 ? below(9) : below(3);
     }
 
     private String some(String often, String seldom) {
@@ -169,7 +174,7 @@ public final class ModelTest {
     }
 
     private String test(int depth) {
-        int kind = depth <= 0 ? 9 : below(6);
+        int kind = depth <= 0 ? 9 : below(depth > 3 ? 3 : 6);
         if (kind == 0) {
             return "!" + test(depth - 1);
         }
@@ -188,7 +193,7 @@ public final class ModelTest {
     }
 
     private String factor(int depth) {
-        if (depth > 0 && below(4) == 0) {
+        if (depth > 0 && below(depth > 3 ? 2 : 4) == 0) {
             return "[" + amount(depth - 1) + "]";
         }
         return below(2) == 0 ? pick("sckalunovhd") : "" + below(new int[] {3, 10, 100, 100000, 120000}[below(5)]);
