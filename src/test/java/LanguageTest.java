@@ -153,32 +153,64 @@ public final class LanguageTest {
         }
     }
 
-    /** A rule that no file could break would tell nothing: each is broken here once. */
+    /** A rule that no file could break would tell nothing: each that Rules judges is broken here, in each way. */
     private static void badFilesAreRefused() throws IOException {
-        String[][] bad = {
-            {"2", "Runnable r = () -> { };"}, {"2", "class Inner { }"}, {"2", "void f() { class Local { } }"},
-            {"3", "private Object o = null;"}, {"3", "private int[][][] deep = null;"}, {"3", "private long[][] two; private String[][] no;"},
-            {"4", "private int f(int a) { return Math.addExact(a, 1); }"}, {"4", "private int f(String s) { return s.hashCode(); }"},
-            {"4", "private long f() { return System.nanoTime(); }"}, {"4", "private int f(String s) { return s.indexOf(3); }"},
-            {"5", "private static int many = 0;"}, {"5", "static { }"}, {"5", "private static final int[] ROW = new int[3];"},
-            {"6", "private void f() { throw new RuntimeException(); }"}, {"6", "private void f() { try { f(); } finally { f(); } }"},
-            {"6", "private boolean f(String a, String b) { return a == b; }"}, {"6", "private void f() { assert true; }"},
-            {"8", "int f(int a) { return f(a - 1); }"}, {"8", "private int f() { return g(); } private int g() { return f(); }"},
-            {"9", "private void f() { for (;;) { } }"}, {"9", "private void f() { while (true) { } }"},
-            {"11", "private void f(int a, int b, int c, int d, int e, int g, int h, int i) { }"},
-            {"11", "private void a() { b(); } private void b() { c(); } private void c() { d(); } private void d() { e(); } "
-                + "private void e() { f(); } private void f() { g(); } private void g() { h(); } private void h() { i(); } private void i() { }"},
-            {"11", "private void f() { " + "\n;".repeat(70) + " }"},
-            {"11", "private int a, b, c, d, e, f, g, h, i, j, k, l, m, n, o, p, q, r, s, t, u, v, w;"},
-            {"12", "private void f() { int[] a = new int[3]; }"}};
+        isBroken("", "private final int[] row = new int[3]; private int f(int a) { return Math.max(a, row.length); }");
+        isBroken("2", "private final Runnable r = () -> { };", "private final Runnable r = Thread::yield;",
+            "class Inner { }", "private void f() { class Local { } }", "private final Bad b = new Bad() { };",
+            "private enum Kind { ONE }");
+        isBroken("3", "private Object o = null;", "private int[][][] deep = null;", "private String[][] two = null;",
+            "private Object f() { return null; }", "private void f(Integer i) { }");
+        isBroken("4", "private int f(int a) { return Math.addExact(a, 1); }",
+            "private int f(String s) { return s.hashCode(); }", "private long f() { return System.nanoTime(); }",
+            "private int f(String s) { return s.indexOf(3); }", "private String s = \"\u00e9\";");
+        isBroken("5", "private static int many = 0;", "static { }", "private static final int[] ROW = new int[3];",
+            "private static final StringBuilder TEXT = null;");
+        isBroken("6", "private void f() { throw new RuntimeException(); }",
+            "private void f() { try { g(); } finally { g(); } } private void g() { }",
+            "private void f() { synchronized (this) { } }", "private void f() { assert true; }",
+            "private boolean f(String a, String b) { return a == b; }", "private Bad f(Bad b) { return (Bad) b; }");
+        isBroken("8", "int f(int a) { return f(a - 1); }",
+            "private int f() { return g(); } private int g() { return f(); }");
+        isBroken("9", "private void f() { for (;;) { } }", "private void f() { for (int i = 0; i < 3;) { } }",
+            "private void f() { while (true) { } }", "private void f() { do { } while (true); }");
+        isBroken("10", "private String f(String a) { return a + 1; }", "private String f(String a) { return 1 + a; }");
+        isBroken("11", "private void f(int a, int b, int c, int d, int e, int g, int h, int i) { }",
+            "private void f() { " + "\n;".repeat(60) + " }", many(21, "private int f#;"),
+            many(12, "private static class C# { }"), many(8, "private void f#() { f##(); }") + "private void f9() { }");
+        isBroken("12", "private void f() { int[] a = new int[3]; }", "private Bad f() { return new Bad(); }");
+        isBroken("", "private void f(int a, int b, int c, int d, int e, int g, int h) { } private void f() { "
+            + "\n;".repeat(58) + " }" + many(20, "private int f#;") + many(11, "private static class C# { }")
+            + many(7, "private void f#() { f##(); }") + "private void f8() { }");
+    }
+
+    /** A text so often, # being its number, ## the one behind it. */
+    private static String many(int often, String text) {
+        StringBuilder all = new StringBuilder();
+        for (int i = 1; i <= often; i++) {
+            all.append(text.replace("##", "" + (i + 1)).replace("#", "" + i)).append(' ');
+        }
+        return all.toString();
+    }
+
+    private static void isBroken(String rule, String... members) throws IOException {
+        for (String member : members) {
+            List<String> broken = broken(member);
+            boolean told = rule.isEmpty() ? broken.isEmpty()
+                : broken.stream().anyMatch(one -> one.startsWith("rule " + rule + ":"));
+            Due.is("rule " + rule + " by " + member + ": " + broken, told, true);
+        }
+    }
+
+    private static List<String> broken(String members) throws IOException {
         Path folder = Files.createTempDirectory("rules");
         Path file = folder.resolve("Bad.java");
-        for (String[] one : bad) {
-            Files.writeString(file, "public final class Bad { " + one[1] + " }");
-            boolean told = look(file).broken().stream().anyMatch(broken -> broken.startsWith("rule " + one[0] + ":"));
-            Due.is("rule " + one[0] + " is broken by " + one[1].trim(), told, true);
+        try {
+            Files.writeString(file, "public class Bad { " + members + " }");
+            return look(file).broken();
+        } finally {
+            Files.delete(file);
+            Files.delete(folder);
         }
-        Files.delete(file);
-        Files.delete(folder);
     }
 }
